@@ -1,0 +1,303 @@
+/** The codes that move points, in a glyph: UNITS 640 at PPEM 10, so that a unit is a 64th of a pixel. */
+public final class MoveTest {
+    public static void main(String[] args) {
+        touching();
+        shifting();
+        interpolating();
+        measuring();
+        byCvt();
+        bySingle();
+        twilight();
+        filling();
+        telling();
+        turning();
+        deltas();
+        slanted();
+        pointFailures();
+        Check.done();
+    }
+
+    private static int[] p(int... values) {
+        return values;
+    }
+
+    /** A font whose glyph 1 is a triangle 10, 20; 110, 40; 70, 200 and a point 30, 30 alone, with the program. */
+    private static FontKit kit(Object... program) {
+        FontKit kit = new FontKit().addEmpty();
+        kit.cvt = FontKit.words(100, -50, 64, 130);
+        kit.add(400, 10, FontKit.simple(10, FontKit.prog(program),
+            p(10, 20, 1, 110, 40, 1, 70, 200, 0), p(30, 30, 1)));
+        return kit;
+    }
+
+    private static HintHouse made(Object... program) {
+        HintHouse house = kit(program).sized(10);
+        Check.due("make(1)", house.make(1), 4);
+        return house;
+    }
+
+    private static void at(String what, HintHouse house, int i, int x, int y) {
+        Check.due(what + ": x of " + i, house.point(i, 0), x);
+        Check.due(what + ": y of " + i, house.point(i, 1), y);
+    }
+
+    private static void moves(String what, int i, int x, int y, Object... program) {
+        at(what, made(program), i, x, y);
+    }
+
+    /** What the codes leave on top of the stack, by SCAN. */
+    private static void gives(String what, int due, Object... codes) {
+        HintHouse house = made(FontKit.prog(codes), 133);
+        Check.due(what, house.told(7), due);
+    }
+
+    private static void fails(String what, int failure, Object... codes) {
+        HintHouse house = kit(codes).sized(10);
+        Check.due(what, house.make(1), -100 - failure);
+    }
+
+    private static void touching() {
+        moves("46", 1, 110, 40, p(1), 46);
+        moves("47 in x", 1, 128, 40, p(1), 47);
+        moves("47 in y", 1, 110, 64, 0, p(1), 47);
+        moves("47 by halves", 1, 96, 40, 25, p(1), 47);
+        moves("47 of a phantom", 1, 110, 40, p(4), 47);
+        moves("47 sets RP1", 2, 88, 200, p(1), 47, p(2), 51);
+        moves("47 sets RP0", 2, 133, 200, p(1), 47, p(2, 5), 58);
+        gives("46 sets RP0", 55, p(2), 46, p(1, 55), 58, p(1, 2), 73);
+        moves("41 and 49", 0, 10, 20, p(0), 47, p(0), 41, p(1), 46, 49);
+        moves("41 only along F", 0, 0, 20, p(0), 47, 4, p(0), 41, p(1), 46, 49);
+    }
+
+    private static void shifting() {
+        // RP2 is point 1, moved by 18 in x.
+        byte[] moved = FontKit.prog(p(1), 47, p(1), 18, p(1), 17);
+        moves("50", 2, 88, 200, moved, p(2), 50);
+        moves("51", 2, 88, 200, moved, p(2), 51);
+        HintHouse three = made(moved, p(3), 23, p(0, 2, 3), 50, p(0), 50);
+        at("50 by LOOP", three, 2, 88, 200);
+        at("50 by LOOP", three, 3, 48, 30);
+        at("50 by LOOP, then once", three, 0, 46, 20);
+        HintHouse contour = made(moved, p(0), 52);
+        at("52", contour, 0, 28, 20);
+        at("52, the reference", contour, 1, 128, 40);
+        at("52", contour, 2, 88, 200);
+        at("52, another contour", contour, 3, 30, 30);
+        at("53", made(moved, p(0), 53), 0, 28, 20);
+        HintHouse zone = made(moved, p(1), 54);
+        at("54", zone, 3, 48, 30);
+        at("54", zone, 0, 28, 20);
+        at("54, the reference", zone, 1, 128, 40);
+        Check.due("54 leaves the phantoms", zone.told(4), 384);
+        moves("54 does not touch", 0, 10 + 18, 20, moved, p(1), 55, 49);
+        moves("52 does touch", 0, 28, 20, moved, p(0), 52, p(1), 41, 49);
+        moves("56", 0, 10 - 7, 20, p(0, -7), 56);
+        HintHouse pixels = made(0, p(2), 23, p(0, 3, 9), 56);
+        at("56 by LOOP", pixels, 0, 10, 29);
+        at("56 by LOOP", pixels, 3, 30, 39);
+        moves("60", 2, 30, 200, p(3), 16, p(2), 60);
+        moves("60 by LOOP", 0, 30, 20, p(3), 16, p(2), 23, p(0, 2), 60);
+        // 39: 110 - 10 is 100, half of it to each.
+        HintHouse both = made(p(0, 1), 39);
+        at("39", both, 0, 60, 20);
+        at("39", both, 1, 60, 40);
+        HintHouse odd = made(p(3, 0), 39, p(0, 1), 56, p(3, 0), 39);
+        at("39, cut off", odd, 3, 20, 30);
+        at("39, cut off", odd, 0, 21, 20);
+    }
+
+    private static void interpolating() {
+        // RP1 is 0 at 10, RP2 is 1 at 110, moved to 210: 70 goes from 60 of 100 to 120 of 200.
+        byte[] wide = FontKit.prog(p(1, 100), 56, p(0), 17, p(1), 18);
+        moves("57", 2, 130, 200, wide, p(2), 57);
+        moves("57 outside", 3, 10 + 40, 30, wide, p(3), 57);
+        HintHouse two = made(wide, p(2), 23, p(2, 3), 57);
+        at("57 by LOOP", two, 2, 130, 200);
+        at("57 by LOOP", two, 3, 50, 30);
+        moves("57 without a range", 2, 70, 200, p(2, 33), 56, p(1), 17, p(1), 18, p(2), 57);
+        moves("57 with negative numbers", 2, 10 + 120, 200, p(1, 100), 56, p(1), 17, p(0), 18, p(2), 57);
+    }
+
+    private static void measuring() {
+        moves("58", 1, 40, 40, p(1, 30), 58);
+        moves("58 from RP0", 1, 60, 40, p(3), 16, p(1, 30), 58);
+        moves("58 sets RP2", 2, 0, 200, p(1, 30), 58, p(2), 50);
+        moves("58 sets RP1", 2, 40, 200, p(3), 47, p(0), 17, p(1, 30), 58, p(2), 51);
+        moves("59 sets RP0", 2, 45, 200, p(1, 30), 59, p(2, 5), 58);
+        moves("58 leaves RP0", 2, 15, 200, p(1, 30), 58, p(2, 5), 58);
+        // 192: 110 is 100 from 10; 0 is moved to 0 by 47.
+        byte[] zero = FontKit.prog(p(0), 47);
+        moves("192", 1, 100, 40, zero, p(1), 192);
+        moves("196", 1, 128, 40, zero, p(1), 196);
+        moves("200", 3, 64, 30, zero, p(3), 200);
+        moves("200 of more than LEAST", 1, 100, 40, zero, p(1), 200);
+        moves("204 of less than LEAST", 3, 64, 30, zero, p(3), 204);
+        moves("200 with LEAST 25", 3, 25, 30, p(25), 26, zero, p(3), 200);
+        moves("200 below 0", 0, 30 - 64, 20, p(3), 46, p(0), 200);
+        moves("208 sets RP0", 2, 60, 200, zero, p(1), 208, p(2), 192);
+        moves("192 leaves RP0", 2, 60, 200, zero, p(1), 192, p(2), 192);
+        moves("192 sets RP2", 2, 60, 200, zero, p(1), 192, p(2), 50);
+        moves("203 as 200", 3, 64, 30, zero, p(3), 203);
+    }
+
+    private static void byCvt() {
+        moves("62", 1, 100, 40, p(1, 0), 62);
+        moves("63 within CUT", 1, 128, 40, p(1, 0), 63);
+        moves("63 beyond CUT", 3, 0, 30, p(3, 3), 63);
+        moves("63 with a greater CUT", 3, 128, 30, p(100), 29, p(3, 3), 63);
+        moves("63 at just CUT", 1, 64, 40, p(46), 29, p(1, 2), 63);
+        moves("63 beyond CUT by 1", 1, 128, 40, p(45), 29, p(1, 2), 63);
+        moves("62 sets RP0", 2, 105, 200, p(1, 0), 62, p(2, 5), 58);
+        byte[] zero = FontKit.prog(p(0), 47);
+        moves("224", 1, 130, 40, zero, p(1, 3), 224);
+        moves("228", 1, 128, 40, zero, p(1, 3), 228);
+        moves("228 beyond CUT", 3, 0, 30, zero, p(5), 29, p(3, 3), 228);
+        moves("224 turned by FLIP", 1, 50, 40, zero, p(1, 1), 224);
+        moves("224 without FLIP", 1, -50, 40, 78, zero, p(1, 1), 224);
+        moves("224 with FLIP again", 1, 50, 40, 78, 77, zero, p(1, 1), 224);
+        moves("232", 1, 64, 40, zero, p(1, 1), 232);
+        moves("240 sets RP0", 2, 100 - 40, 200, zero, p(1, 0), 240, p(2), 192);
+        moves("224 leaves RP0", 2, 60, 200, zero, p(1, 3), 224, p(2), 192);
+        fails("224 of no CVT", 6, p(1, 4), 224);
+        fails("63 of no CVT", 6, p(1, -1), 63);
+    }
+
+    private static void bySingle() {
+        byte[] zero = FontKit.prog(p(0), 47);
+        // SINGLE 90 (scaled: 90), d is 100.
+        moves("192 within SINGLE CUT", 1, 90, 40, p(90), 31, p(11), 30, zero, p(1), 192);
+        moves("192 at just SINGLE CUT", 1, 100, 40, p(90), 31, p(10), 30, zero, p(1), 192);
+        moves("192 with SINGLE below 0", 1, 90, 40, p(-90), 31, p(11), 30, zero, p(1), 192);
+        moves("192 with d below 0", 0, 110 - 90, 20, p(90), 31, p(11), 30, p(1), 46, p(0), 192);
+        moves("224 within SINGLE CUT", 1, 90, 40, p(90), 31, p(11), 30, zero, p(1, 0), 224);
+        moves("224, e below 0", 1, -45, 40, 78, p(45), 31, p(6), 30, zero, p(1, 1), 224);
+    }
+
+    private static void twilight() {
+        byte[] z0 = FontKit.prog(p(0), 19);
+        byte[] z1 = FontKit.prog(p(0), 20);
+        gives("62 of zone 0", 100, z0, p(2, 0), 62, p(0), 21, p(2), 70);
+        gives("62 of zone 0, ORIGINAL", 100, z0, p(2, 0), 62, p(0), 21, p(2), 71);
+        gives("63 of zone 0", 128, z0, p(2, 0), 63, p(0), 21, p(2), 70);
+        gives("63 of zone 0, ORIGINAL", 100, z0, p(2, 0), 63, p(0), 21, p(2), 71);
+        gives("58 of zone 0", 10 + 77, z1, p(2, 77), 58, p(0), 21, p(2), 70);
+        gives("58 of zone 0, ORIGINAL", 10 + 77, z1, p(2, 77), 58, p(0), 21, p(2), 71);
+        gives("58 of zone 0, the reference was moved", 77, p(0), 47, z1, p(2, 77), 58, p(0), 21, p(2), 70);
+        gives("58 of zone 0, ORIGINAL of what was moved", 87, p(0), 47, z1, p(2, 77), 58, p(0), 21, p(2), 71);
+        gives("58 of zone 0, y of the reference", 20, z1, p(2, 77), 58, p(0), 21, 2, p(2), 70);
+        gives("224 of zone 0", 110, z1, p(2, 0), 224, p(0), 21, p(2), 70);
+        gives("228 of zone 0, ORIGINAL", 110, z1, p(2, 0), 228, p(0), 21, p(2), 71);
+        gives("228 of zone 0", 138, z1, p(2, 0), 228, p(0), 21, p(2), 70);
+        gives("224 of zone 0, below 0", -40, z1, p(2, 1), 224, p(0), 21, p(2), 70);
+        gives("228 of two zones does not ask CUT", 138, p(0), 29, z1, p(2, 3), 228, p(0), 21, p(2), 70);
+        gives("72 of zone 0, ORIGINAL", 33, p(0), 21, p(1, 33), 72, p(1), 71);
+        gives("72 of zone 1, ORIGINAL", 110, p(1, 33), 72, p(1), 71);
+        gives("72 of zone 1", 33, p(1, 33), 72, p(1), 70);
+        gives("54 of zone 0", 18, p(1), 47, p(1), 18, p(0), 54, p(0), 21, p(3), 70);
+        fails("point 4 of zone 0", 5, z0, p(4), 46);
+        HintHouse house = made(p(0), 22, p(3, 500), 72);
+        Check.due("the size's own twilight points stay", house.held(2, 3), 0);
+    }
+
+    private static void filling() {
+        // In x 0 goes from 10 to 0, 1 from 110 to 128; 2 lies between: 60 of 100 by 128.
+        HintHouse both = made(p(0), 47, p(1), 47, 49);
+        at("49, between", both, 2, 77, 200);
+        at("49, an untouched contour", both, 3, 30, 30);
+        HintHouse one = made(p(1), 47, 49);
+        at("49, one touched", one, 0, 28, 20);
+        at("49, one touched", one, 2, 88, 200);
+        HintHouse y = made(0, p(1), 47, 48);
+        at("48, one touched", y, 2, 70, 224);
+        at("48 leaves x", y, 1, 110, 64);
+        at("48 does not see x", made(p(1), 47, 48), 0, 10, 20);
+        // 2 at 70 and 1 at 110 touched: 0 at 10 lies below both and goes with 2.
+        at("49, below", made(p(2), 47, p(1, 3), 56, 49), 0, 4, 20);
+        at("49, above", made(p(2), 47, p(0, 5), 56, 49), 1, 104, 40);
+    }
+
+    private static void telling() {
+        gives("70", 110, p(1), 70);
+        gives("70 in y", 40, 0, p(1), 70);
+        gives("71", 110, p(1), 47, p(1), 71);
+        gives("73", 100, p(1, 0), 73);
+        gives("73 of what was moved", 118, p(1), 47, p(1, 0), 73);
+        gives("74", 100, p(1), 47, p(1, 0), 74);
+        gives("74, the other way", -100, p(0, 1), 74);
+        gives("the first phantom", 0, p(4), 70);
+        gives("the second phantom, rounded", 384, p(5), 70);
+        gives("the second phantom, ORIGINAL", 400, p(5), 71);
+    }
+
+    private static void turning() {
+        HintHouse house = made(p(2), 23, p(0, 2), 128, p(3), 128);
+        int[] on = {0, 1, 1, 0};
+        for (int i = 0; i < 4; i++) {
+            Check.due("128: ON of " + i, house.point(i, 2), on[i]);
+        }
+        HintHouse off = made(p(1, 3), 130, p(3, 3), 129, p(3, 2), 130, p(99, -99), 129);
+        int[] range = {1, 0, 0, 1};
+        for (int i = 0; i < 4; i++) {
+            Check.due("129, 130: ON of " + i, off.point(i, 2), range[i]);
+        }
+        fails("128 of a phantom", 5, p(4), 128);
+        fails("128 in zone 0", 5, p(0), 19, p(0), 128);
+        fails("129 of -1", 5, p(-1, 1), 129);
+        fails("130 beyond the points", 5, p(0, 4), 130);
+    }
+
+    private static void deltas() {
+        moves("93", 1, 118, 40, p(0x18, 1, 1), 93);
+        moves("93 in y", 1, 110, 40 - 64, 0, p(0x10, 1, 1), 93);
+        moves("93 of another size", 1, 110, 40, p(0x28, 99, 1), 93);
+        moves("113", 1, 118, 40, p(-7), 94, p(0x18, 1, 1), 113);
+        moves("114", 1, 118, 40, p(-23), 94, p(0x18, 1, 1), 114);
+        HintHouse two = made(p(0x18, 1, 0x1f, 2, 2), 93);
+        at("93 of two", two, 1, 118, 40);
+        at("93 of two", two, 2, 134, 200);
+        fails("93 of no point", 5, p(0x18, 6, 1), 93);
+        fails("93 of -1", 11, p(-1), 93);
+        fails("93 of too few", 1, p(1, 1), 93);
+    }
+
+    private static void slanted() {
+        // P along 3, 4 (9830, 13107), F along x: q is 9830.
+        moves("72 along 3, 4", 3, 30 + 68, 30, p(3, 4), 10, p(3, 3), 70, p(41), 96, 72);
+        gives("LONG along 3, 4", 42, p(3, 4), 10, p(3), 70);
+        // F and P at right angles: q is 16384.
+        moves("F across P", 3, 30 + 64, 30, 2, p(3), 70, p(64), 96, p(3), 35, 72);
+        gives("6: from 0 to 1", 16066, p(1, 0), 6, 12, 33);
+        gives("6: from 0 to 1, y", 3213, p(1, 0), 6, 12);
+        gives("7: turned left", -3213, p(1, 0), 7, 12, 33);
+        gives("9: F turned left, y", 16066, p(1, 0), 9, 13);
+        gives("8: F", 16066, p(1, 0), 8, 13, 33);
+        gives("8 leaves P", 16384, p(1, 0), 8, 12, 33);
+        gives("134: P of CURRENT", 16384, 0, p(1, -20), 56, 1, p(1, 0), 134, 12, 33);
+        gives("134: D of ORIGINAL", 102, 0, p(1, -20), 56, 1, p(1, 0), 134, p(1, 0), 74);
+        gives("135: P turned left", 16384, 0, p(1, -20), 56, 1, p(1, 0), 135, 12);
+        gives("6 of one point", 16384, p(1, 1), 6, 12, 33);
+    }
+
+    private static void pointFailures() {
+        fails("46 of 6", 5, p(6), 46);
+        fails("46 of -1", 5, p(-1), 46);
+        fails("52 of contour 2", 5, p(2), 52);
+        fails("52 of contour -1", 5, p(-1), 52);
+        fails("52 with ZP2 0", 5, p(0), 21, p(0), 52);
+        fails("54 of zone 2", 5, p(2), 54);
+        fails("50 without its reference", 5, p(9), 18, p(0), 50);
+        fails("57 without RP1", 5, p(9), 17, p(0), 57);
+        fails("60 without RP0", 5, p(9), 16, p(0), 60);
+        fails("58 without RP0", 5, p(9), 16, p(0, 0), 58);
+        fails("192 without RP0", 5, p(-1), 16, p(0), 192);
+        fails("224: RP0 goes before n", 5, p(-1), 16, p(0, 99), 224);
+        fails("70 of 6", 5, p(6), 70);
+        fails("72 of 6", 5, p(6, 0), 72);
+        fails("73 of 6", 5, p(0, 6), 73);
+        fails("39 of 6", 5, p(6, 0), 39);
+        fails("6 of 6", 5, p(6, 0), 6);
+        fails("134 of 6", 5, p(0, 6), 134);
+        fails("41 of 6", 5, p(6), 41);
+        moves("54 leaves LOOP, 50 takes it", 0, 10, 20, p(2), 23, p(1), 54, p(0, 2), 50);
+    }
+}
