@@ -2626,7 +2626,7 @@ public final class HintHouse {
         }
 
         private boolean build(int g, int level) {
-            if (level >= MOST_LEVELS) {
+            if (level >= MOST_LEVELS || !font.hasGlyph(g)) {
                 machine.failOutside(TOO_BIG);
                 return false;
             }

@@ -259,6 +259,7 @@ public final class CodesTest {
         fails("function -1", 6, 4, p(-1), 44, 45);
         fails("no such function", 6, 4, p(3), 43);
         fails("function 64", 6, 4, p(64), 43);
+        fails("function 64 is not own code 0", 6, 10, p(0), 137, 45, p(64), 43);
         fails("no such function, no times", 6, 6, p(0, 3), 42);
         fails("without 45", 4, 4, p(3), 44, 1);
         fails("45 outside", 4, 1, 1, 45);
@@ -355,6 +356,7 @@ public final class CodesTest {
         fails("SHIFT 7", 11, 4, p(7), 95);
         fails("SHIFT -1", 11, 4, p(-1), 95);
         fails("LOOP 0", 11, 4, p(0), 23);
+        Check.due("LOOP 65535", kit(p(1024, 1), 98, p(1), 97, 23).house().size(10), 5);
         fails("LOOP 65536", 11, 7, p(1024, 1), 98, 23);
         fails("by 0", 7, 6, p(5, 0), 98);
     }

@@ -208,6 +208,13 @@ public final class LoadTest {
         tables = kit.tables();
         tables.put("loca", Arrays.copyOf(tables.get("loca"), 7));
         Check.due("loca of 7, form 0", FontKit.loadTables(tables), -110);
+        FontKit single = new FontKit().addEmpty();
+        for (int form = 0; form < 2; form++) {
+            single.form = form;
+            tables = single.tables();
+            tables.put("loca", Arrays.copyOf(tables.get("loca"), 3 + 4 * form));
+            Check.due("loca that ends in its last number", FontKit.loadTables(tables), -110);
+        }
         tables = kit.tables();
         FontKit.setU2(tables.get("loca"), 6, tables.get("glyf").length / 2 + 1);
         Check.due("loca beyond glyf, form 0", FontKit.loadTables(tables), -110);

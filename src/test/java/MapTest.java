@@ -77,7 +77,7 @@ public final class MapTest {
             Check.due("glyphOf(" + pair[0] + ") of form 4", house.glyphOf(pair[0]), pair[1]);
         }
         holds("form 4 less a byte", Arrays.copyOf(cmap, cmap.length - 1), false);
-        int[][] faults = {{12, 5}, {14, 47}, {18, 7}, {18, 0}, {18, 82}, {26, 9}, {26, 33}, {32, 65534}, {36, 21}, {54, 7}};
+        int[][] faults = {{12, 5}, {14, 47}, {18, 7}, {18, 0}, {18, 82}, {26, 9}, {26, 33}, {32, 65534}, {36, 21}, {54, 7}, {58, 9}};
         for (int[] fault : faults) {
             byte[] other = cmap.clone();
             FontKit.setU2(other, fault[0], fault[1]);

@@ -14,6 +14,9 @@ public final class MoveTest {
         deltas();
         slanted();
         pointFailures();
+        zonesOfOne();
+        zonesOfReferences();
+        zonesOfVectors();
         Check.done();
     }
 
@@ -74,6 +77,7 @@ public final class MoveTest {
         byte[] moved = FontKit.prog(p(1), 47, p(1), 18, p(1), 17);
         moves("50", 2, 88, 200, moved, p(2), 50);
         moves("51", 2, 88, 200, moved, p(2), 51);
+        moves("50 in y", 2, 70, 224, 0, p(1), 47, p(1), 18, p(2), 50);
         HintHouse three = made(moved, p(3), 23, p(0, 2, 3), 50, p(0), 50);
         at("50 by LOOP", three, 2, 88, 200);
         at("50 by LOOP", three, 3, 48, 30);
@@ -152,6 +156,8 @@ public final class MoveTest {
         moves("224", 1, 130, 40, zero, p(1, 3), 224);
         moves("228", 1, 128, 40, zero, p(1, 3), 228);
         moves("228 beyond CUT", 3, 0, 30, zero, p(5), 29, p(3, 3), 228);
+        moves("228 at just CUT", 3, 128, 30, zero, p(80), 29, p(3, 0), 228);
+        moves("228 beyond CUT by 1", 3, 0, 30, zero, p(79), 29, p(0), 21, p(3, 0), 228);
         moves("224 turned by FLIP", 1, 50, 40, zero, p(1, 1), 224);
         moves("224 without FLIP", 1, -50, 40, 78, zero, p(1, 1), 224);
         moves("224 with FLIP again", 1, 50, 40, 78, 77, zero, p(1, 1), 224);
@@ -214,6 +220,25 @@ public final class MoveTest {
         // 2 at 70 and 1 at 110 touched: 0 at 10 lies below both and goes with 2.
         at("49, below", made(p(2), 47, p(1, 3), 56, 49), 0, 4, 20);
         at("49, above", made(p(2), 47, p(0, 5), 56, 49), 1, 104, 40);
+        // 0 from 10 to 40, 1 from 110 to 128: 60 of 100 by 88 are 53.
+        at("49, between moved ones", made(p(0, 30), 56, p(1), 47, 49), 2, 93, 200);
+        secondContour();
+    }
+
+    /** Points 3 to 6 are 10, 0; 50, 0; 90, 0; 90, 60; of these 3 and 5 are touched. */
+    private static void secondContour() {
+        FontKit kit = new FontKit().addEmpty();
+        kit.add(400, 0, FontKit.simple(0, FontKit.prog(p(3, 8), 56, p(5, -16), 56, 49),
+            p(10, 20, 1, 110, 40, 1, 70, 200, 0), p(10, 0, 1, 50, 0, 1, 90, 0, 1, 90, 60, 1), p(7, 7, 1, 8, 9, 1)));
+        HintHouse house = kit.sized(10);
+        Check.due("make(1)", house.make(1), 9);
+        at("49, the contour before", house, 1, 110, 40);
+        at("49, touched", house, 3, 18, 0);
+        at("49, halfway", house, 4, 46, 0);
+        at("49, touched", house, 5, 74, 0);
+        at("49, around", house, 6, 74, 60);
+        at("49, the contour behind", house, 7, 7, 7);
+        at("49, the contour behind", house, 8, 8, 9);
     }
 
     private static void telling() {
@@ -299,5 +324,76 @@ public final class MoveTest {
         fails("134 of 6", 5, p(0, 6), 134);
         fails("41 of 6", 5, p(6), 41);
         moves("54 leaves LOOP, 50 takes it", 0, 10, 20, p(2), 23, p(1), 54, p(0, 2), 50);
+    }
+
+    /** Twilight points 0 at 300, 350 and 1 at 500, 700; all zone pointers are 1 again. */
+    private static byte[] twilightPoints() {
+        return FontKit.prog(p(0), 21, p(0, 300), 72, p(1, 500), 72, 0, p(0, 350), 72, p(1, 700), 72, 1, p(1), 21);
+    }
+
+    /** As before, with point 1 moved on by 20 in x. */
+    private static byte[] movedTwilight() {
+        return FontKit.prog(twilightPoints(), p(0), 21, p(1, 20), 56, p(1), 21);
+    }
+
+    /** One zone pointer at a time is 0. */
+    private static void zonesOfOne() {
+        byte[] t = twilightPoints();
+        byte[] seen = FontKit.prog(p(0), 21, p(1), 70);
+        moves("39 with ZP1 0", 1, 305, 40, t, p(0), 20, p(1, 1), 39);
+        moves("39 with ZP0 0", 1, 305, 40, t, p(0), 19, p(1, 1), 39);
+        moves("39 with ZP2 0", 1, 60, 40, t, p(0), 21, p(1, 0), 39);
+        moves("47 with ZP0 0", 1, 110, 40, t, p(0), 19, p(1), 47);
+        gives("47 with ZP0 0", 512, t, p(0), 19, p(1), 47, seen);
+        moves("41 with ZP0 0", 0, 0, 20, p(0), 47, p(0), 19, p(0), 41, p(1), 19, p(1), 46, 49);
+        moves("56 with ZP2 0", 1, 110, 40, t, p(0), 21, p(1, 9), 56);
+        gives("56 with ZP2 0", 509, t, p(0), 21, p(1, 9), 56, seen);
+        moves("62 with ZP1 and ZP2 0", 1, 100, 40, t, p(0), 20, p(0), 21, p(1, 0), 62);
+        gives("73 with ZP0 0", 390, t, p(0), 19, p(1, 1), 73);
+        gives("73 with ZP1 0", -390, t, p(0), 20, p(1, 1), 73);
+        gives("73 with ZP2 0", 0, t, p(0), 21, p(1, 1), 73);
+        gives("74 with ZP0 0", 390, t, p(0), 19, p(1, 1), 74);
+        gives("74 with ZP1 0", -390, t, p(0), 20, p(1, 1), 74);
+        gives("93 with ZP0 0", 508, t, p(0), 19, p(0x18, 1, 1), 93, seen);
+        moves("93 with ZP1 and ZP2 0", 1, 118, 40, t, p(0), 20, p(0), 21, p(0x18, 1, 1), 93);
+        moves("62 sets RP1", 2, 60, 200, p(1, 0), 62, p(2), 51);
+        moves("60 leaves LOOP 1", 3, 30, 30, p(3), 16, p(2), 23, p(0, 2), 60, p(3), 60);
+        gives("58 of zone 0 in y", 20 + 77, p(0), 20, 0, p(2, 77), 58, p(0), 21, p(2), 71);
+        gives("62 of zone 0 in y", 100, p(0), 19, 0, p(2, 0), 62, p(0), 21, p(2), 71);
+    }
+
+    private static void zonesOfReferences() {
+        byte[] t = twilightPoints();
+        byte[] m = movedTwilight();
+        byte[] seen = FontKit.prog(p(0), 21, p(1), 70);
+        moves("50 with ZP1 0", 2, 90, 200, m, p(0), 20, p(1), 18, p(2), 50);
+        moves("51 with ZP0 0", 2, 90, 200, m, p(0), 19, p(1), 17, p(2), 51);
+        gives("50 with ZP2 0", 518, t, p(1), 47, p(1), 18, p(0), 21, p(1), 50, seen);
+        moves("52 by a point of zone 0", 1, 130, 40, m, p(0), 20, p(1), 18, p(0), 52);
+        moves("53 by a point of zone 0", 1, 130, 40, m, p(0), 19, p(1), 17, p(0), 53);
+        moves("54 by a point of zone 0", 1, 130, 40, m, p(0), 20, p(1), 18, p(1), 54);
+        gives("54 of zone 0 by its own point", 520, m, p(0), 20, p(1), 18, p(0), 54, seen);
+        gives("54 of zone 0, another point", 320, m, p(0), 20, p(1), 18, p(0), 54, p(0), 21, p(0), 70);
+        moves("57 with ZP0 0", 2, 93, 200, t, p(1, 19), 56, p(0), 19, p(0), 17, p(1), 18, p(2), 57);
+        moves("57 with ZP1 0", 2, 73, 200, m, p(0), 20, p(0), 17, p(1), 18, p(2), 57, p(2, 1), 56);
+        gives("57 with ZP2 0", 990, t, p(1, 100), 56, p(0), 17, p(1), 18, p(0), 21, p(1), 57, seen);
+        moves("58 with ZP0 0", 2, 507, 200, t, p(1), 16, p(0), 19, p(2, 7), 58);
+        moves("60 with ZP0 0", 2, 500, 200, t, p(1), 16, p(0), 19, p(2), 60);
+        gives("60 with ZP1 0", 10, t, p(0), 20, p(1), 60, seen);
+        moves("192 with ZP0 0", 2, 90, 200, m, p(1), 16, p(0), 19, p(2), 192);
+        gives("192 with ZP1 0", 490, t, p(0), 47, p(0), 20, p(1), 192, seen);
+        moves("224 with ZP0 0", 2, 400, 200, t, p(1), 16, p(0), 19, p(2, 0), 224);
+        moves("228 with ZP0 0", 2, 372, 200, t, p(1), 16, p(0), 19, p(2, 0), 228);
+        moves("228 with both 1, beyond CUT", 2, 10 + 64, 200, p(9), 29, p(2, 3), 228);
+    }
+
+    private static void zonesOfVectors() {
+        byte[] t = twilightPoints();
+        gives("6 with ZP1 0, x", 9409, t, p(0), 20, p(1, 3), 6, 12, 33);
+        gives("6 with ZP1 0, y", 13413, t, p(0), 20, p(1, 3), 6, 12);
+        gives("6 with ZP2 0, x", -9409, t, p(0), 21, p(3, 1), 6, 12, 33);
+        gives("8 with ZP1 0, y", 13413, t, p(0), 20, p(1, 3), 8, 13);
+        gives("134 with ZP1 0, x", 9409, t, p(0), 20, p(1, 3), 134, 12, 33);
+        gives("134 with ZP2 0, D", 818, t, p(0), 21, p(3, 1), 134, p(0), 19, p(1, 3), 74, 101);
     }
 }

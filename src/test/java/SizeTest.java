@@ -5,6 +5,7 @@ public final class SizeTest {
         scaling();
         programsInOrder();
         anew();
+        seenByGlyphs();
         failing();
         Check.done();
     }
@@ -99,6 +100,26 @@ public final class SizeTest {
         Check.due("held(2, 1) anew", house.held(2, 1), 0);
         Check.due("held(4, 1) anew", house.held(4, 1), 0);
         Check.due("held(0, 0) anew", house.held(0, 0), 128);
+    }
+
+    /** A glyph's program sees what the size left, from the first entry on. */
+    private static void seenByGlyphs() {
+        FontKit kit = new FontKit().addEmpty();
+        kit.cvt = FontKit.words(5, 6);
+        kit.prep = FontKit.prog(FontKit.push(0, 70), 66, FontKit.push(1, 71), 66, FontKit.push(0), 22,
+            FontKit.push(0, 30), 72, FontKit.push(1, 31), 72, 0, FontKit.push(0, 40), 72, FontKit.push(0, 2), 56);
+        kit.addSquare(FontKit.push(0), 67, 133, FontKit.push(0), 69, 141);
+        kit.addSquare(FontKit.push(0), 21, FontKit.push(0), 70, 133, FontKit.push(1), 71, 141);
+        kit.addSquare(FontKit.push(0), 21, 0, FontKit.push(0), 70, 133, FontKit.push(0), 71, 141);
+        HintHouse house = kit.sized(10);
+        int[][] due = {{70, 5}, {30, 31}, {42, 40}};
+        for (int g = 1; g <= 3; g++) {
+            house.make(g);
+            Check.due("told(7) of " + g, house.told(7), due[g - 1][0]);
+            Check.due("told(8) of " + g, house.told(8), due[g - 1][1]);
+        }
+        Check.due("held(3, 0)", house.held(3, 0), 42);
+        Check.due("held(5, 0)", house.held(5, 0), 40);
     }
 
     private static void failing() {
