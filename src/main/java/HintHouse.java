@@ -1785,7 +1785,7 @@ public final class HintHouse {
                         passDefinition();
                     }
                     return;
-                default:
+                default: return;
             }
         }
 
