@@ -6,8 +6,9 @@ import java.util.Arrays;
 
 /**
  * Plays the runs under src/test/runs: fonts and programs by chance, with the answers of a second
- * program that was written from the document on its own. A row is a call, its arguments, "=" and
- * the answer; "new" begins an object; "bytes" feeds bytes, eight a call.
+ * program for the same document, built another way by the same hand (it finds slips, not misreadings).
+ * A row is a call, its arguments, "=" and the answer; "new" begins an object; "bytes" feeds bytes,
+ * eight a call.
  */
 public final class RecordedTest {
     public static void main(String[] args) throws IOException {
