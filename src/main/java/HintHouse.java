@@ -436,19 +436,22 @@ public final class HintHouse {
         return v < -most || v > most;
     }
 
-    /** The whole number nearest to a / b, of two the one farther from 0. */
+    /**
+     * The whole number nearest to a / b, of two the one farther from 0. The sizes are held below 0,
+     * since the size of the least long is no long.
+     */
     private static long nearest(long a, long b) {
         if (b == 0) {
             return 0;
         }
-        long size = a < 0 ? -a : a;
-        long by = b < 0 ? -b : b;
-        long whole = size / by;
-        long rest = size % by;
-        if (rest >= by - rest) {
-            whole++;
+        long whole = a / b;
+        long rest = a % b;
+        long under = rest < 0 ? rest : -rest;
+        long by = b < 0 ? b : -b;
+        if (under > by - under) {
+            return whole;
         }
-        return (a < 0) != (b < 0) ? -whole : whole;
+        return (a < 0) != (b < 0) ? whole - 1 : whole + 1;
     }
 
     private static long toWholePixel(long v) {

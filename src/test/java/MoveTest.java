@@ -1,3 +1,5 @@
+import java.math.BigInteger;
+
 /** The codes that move points, in a glyph: UNITS 640 at PPEM 10, so that a unit is a 64th of a pixel. */
 public final class MoveTest {
     public static void main(String[] args) {
@@ -17,6 +19,7 @@ public final class MoveTest {
         zonesOfOne();
         zonesOfReferences();
         zonesOfVectors();
+        edgesOf64Bits();
         Check.done();
     }
 
@@ -395,5 +398,51 @@ public final class MoveTest {
         gives("8 with ZP1 0, y", 13413, t, p(0), 20, p(1, 3), 8, 13);
         gives("134 with ZP1 0, x", 9409, t, p(0), 20, p(1, 3), 134, 12, 33);
         gives("134 with ZP2 0, D", 818, t, p(0), 21, p(3, 1), 134, p(0), 19, p(1, 3), 74, 101);
+    }
+
+    /** Codes that leave a number of 32 bits on the stack. */
+    private static byte[] number(int v) {
+        int half = (v & 65535) >> 1;
+        return FontKit.prog(p(v >> 16, 16384), 99, p(16384), 99, p(half), 96, p(half), 96, p(v & 1), 96);
+    }
+
+    /** a / b to the nearest, of two the one farther from 0; a wrapped to 64 bits, what comes out to 32. */
+    private static int nearestWrapped(BigInteger a, long b) {
+        BigInteger in64 = BigInteger.valueOf(a.longValue());
+        BigInteger by = BigInteger.valueOf(Math.abs(b));
+        BigInteger size = in64.abs().shiftLeft(1).add(by).divide(by.shiftLeft(1));
+        return (in64.signum() * Long.signum(b) < 0 ? size.negate() : size).intValue();
+    }
+
+    /**
+     * 57 with o and c as told and t 1: twilight point 2, whose LONG is away from point 0's, is moved by
+     * o c - away. P, D lie along x, F has Fx, Fy as the direction of x, y.
+     */
+    private static void interpolates(int o, int c, int away, int[] toward, int fx, int fy) {
+        FontKit kit = new FontKit().addEmpty();
+        kit.prep = FontKit.prog(p(0), 22, p(1, 1), 72, p(1), number(c - 1), 56,
+            p(2), number(o), 72, p(2), number(away - o), 56, p(0), 17, p(1), 18, toward, 11, p(2), 57);
+        HintHouse house = kit.sized(10);
+        BigInteger d = BigInteger.valueOf(o).multiply(BigInteger.valueOf(c)).subtract(BigInteger.valueOf(away));
+        String what = "57: " + o + ", " + c + ", " + away + ", F " + fx + ", " + fy;
+        Check.due(what + ", ORIGINAL", house.held(4, 2), o);
+        Check.due(what + ", x", house.held(2, 2), away + nearestWrapped(d.multiply(BigInteger.valueOf(fx)), fx));
+        Check.due(what + ", y", house.held(3, 2), nearestWrapped(d.multiply(BigInteger.valueOf(fy)), fx));
+    }
+
+    /** By d 2^62 and an even Fx the product is 2^63, that is -2^63 in 64 bits. */
+    private static void edgesOf64Bits() {
+        int least = Integer.MIN_VALUE;
+        Check.due("-2^63 by 9830", nearestWrapped(BigInteger.ONE.shiftLeft(63), 9830), -955990686);
+        for (int away = -2; away <= 2; away++) {
+            interpolates(least, least, away, p(3, 4), 9830, 13107);
+            interpolates(least, least, away, p(-3, 4), -9830, 13107);
+            interpolates(least, least, away, p(4, 3), 13107, 9830);
+            interpolates(least, least, away, p(4, -3), 13107, -9830);
+            interpolates(least, least, away, p(-4, -3), -13107, -9830);
+            interpolates(least, Integer.MAX_VALUE, away, p(-3, 4), -9830, 13107);
+            interpolates(1 << 30, least, away, p(3, 4), 9830, 13107);
+            interpolates(12345, -54321, away, p(-3, 4), -9830, 13107);
+        }
     }
 }
