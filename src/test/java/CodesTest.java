@@ -18,37 +18,19 @@ public final class CodesTest {
     }
 
     private static FontKit kit(Object... prep) {
-        FontKit kit = new FontKit().addEmpty();
-        kit.cvt = FontKit.words(100, -50, 64);
-        kit.prep = FontKit.prog(prep);
-        return kit;
+        return Prep.kit(prep);
     }
 
     private static int[] p(int... values) {
         return values;
     }
 
-    /** What the codes leave on top of the stack. */
     private static void gives(String what, long due, Object... codes) {
-        HintHouse house = kit(codes, due);
-        Check.due(what, house.held(1, 9), due);
-    }
-
-    private static HintHouse kit(Object[] codes, long due) {
-        FontKit kit = kit(FontKit.prog(codes), p(9), 35, 66);
-        HintHouse house = kit.house();
-        int answer = house.size(10);
-        if (answer < 0) {
-            Check.due("size(10)", answer, due);
-        }
-        return house;
+        Prep.gives(what, due, codes);
     }
 
     private static void fails(String what, int failure, int place, Object... codes) {
-        HintHouse house = kit(codes).house();
-        Check.due(what, house.size(10), -100 - failure);
-        Check.due(what + ": told(2)", house.told(2), failure);
-        Check.due(what + ": told(3)", house.told(3), place);
+        Prep.fails(what, failure, place, codes);
     }
 
     private static void reckoning() {

@@ -151,6 +151,12 @@ final class FontKit {
         return values;
     }
 
+    /** Codes that leave any number of 32 bits on the STACK. */
+    static byte[] number(int v) {
+        int half = (v & 65535) >> 1;
+        return prog(push(v >> 16, 16384), 99, push(16384), 99, push(half), 96, push(half), 96, push(v & 1), 96);
+    }
+
     /** A cmap with a map of form 12: three numbers for each group. */
     static byte[] groups(int... groups) {
         Out map = new Out().u2(12, 0).u4(16 + 4L * groups.length, 0, groups.length / 3);

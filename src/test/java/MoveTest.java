@@ -27,39 +27,24 @@ public final class MoveTest {
         return values;
     }
 
-    /** A font whose glyph 1 is a triangle 10, 20; 110, 40; 70, 200 and a point 30, 30 alone, with the program. */
-    private static FontKit kit(Object... program) {
-        FontKit kit = new FontKit().addEmpty();
-        kit.cvt = FontKit.words(100, -50, 64, 130);
-        kit.add(400, 10, FontKit.simple(10, FontKit.prog(program),
-            p(10, 20, 1, 110, 40, 1, 70, 200, 0), p(30, 30, 1)));
-        return kit;
-    }
-
     private static HintHouse made(Object... program) {
-        HintHouse house = kit(program).sized(10);
-        Check.due("make(1)", house.make(1), 4);
-        return house;
+        return Triangle.made("a triangle", program);
     }
 
     private static void at(String what, HintHouse house, int i, int x, int y) {
-        Check.due(what + ": x of " + i, house.point(i, 0), x);
-        Check.due(what + ": y of " + i, house.point(i, 1), y);
+        Triangle.at(what, house, i, x, y);
     }
 
     private static void moves(String what, int i, int x, int y, Object... program) {
-        at(what, made(program), i, x, y);
+        Triangle.moves(what, i, x, y, program);
     }
 
-    /** What the codes leave on top of the stack, by SCAN. */
     private static void gives(String what, int due, Object... codes) {
-        HintHouse house = made(FontKit.prog(codes), 133);
-        Check.due(what, house.told(7), due);
+        Triangle.gives(what, due, codes);
     }
 
     private static void fails(String what, int failure, Object... codes) {
-        HintHouse house = kit(codes).sized(10);
-        Check.due(what, house.make(1), -100 - failure);
+        Triangle.fails(what, failure, codes);
     }
 
     private static void touching() {
@@ -400,12 +385,6 @@ public final class MoveTest {
         gives("134 with ZP2 0, D", 818, t, p(0), 21, p(3, 1), 134, p(0), 19, p(1, 3), 74, 101);
     }
 
-    /** Codes that leave a number of 32 bits on the stack. */
-    private static byte[] number(int v) {
-        int half = (v & 65535) >> 1;
-        return FontKit.prog(p(v >> 16, 16384), 99, p(16384), 99, p(half), 96, p(half), 96, p(v & 1), 96);
-    }
-
     /** a / b to the nearest, of two the one farther from 0; a wrapped to 64 bits, what comes out to 32. */
     private static int nearestWrapped(BigInteger a, long b) {
         BigInteger in64 = BigInteger.valueOf(a.longValue());
@@ -420,8 +399,8 @@ public final class MoveTest {
      */
     private static void interpolates(int o, int c, int away, int[] toward, int fx, int fy) {
         FontKit kit = new FontKit().addEmpty();
-        kit.prep = FontKit.prog(p(0), 22, p(1, 1), 72, p(1), number(c - 1), 56,
-            p(2), number(o), 72, p(2), number(away - o), 56, p(0), 17, p(1), 18, toward, 11, p(2), 57);
+        kit.prep = FontKit.prog(p(0), 22, p(1, 1), 72, p(1), FontKit.number(c - 1), 56,
+            p(2), FontKit.number(o), 72, p(2), FontKit.number(away - o), 56, p(0), 17, p(1), 18, toward, 11, p(2), 57);
         HintHouse house = kit.sized(10);
         BigInteger d = BigInteger.valueOf(o).multiply(BigInteger.valueOf(c)).subtract(BigInteger.valueOf(away));
         String what = "57: " + o + ", " + c + ", " + away + ", F " + fx + ", " + fy;
