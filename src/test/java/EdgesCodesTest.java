@@ -20,6 +20,7 @@ public final class EdgesCodesTest {
         deltaNumbers();
         deltaShifts();
         keptFromFpgmToPrep();
+        asItIsOrScaled();
         Check.done();
     }
 
@@ -40,6 +41,11 @@ public final class EdgesCodesTest {
             HintHouse house = Prep.ran(what, p(row[0], row[1]), 10, p(row[0], row[1]), 11, 12, stored(1), stored(0), 13, stored(3), stored(2));
             for (int k = 0; k < 4; k++) {
                 Check.due(what + " by " + (10 + k / 2), house.held(1, k), row[2 + k % 2]);
+            }
+            HintHouse behind = Prep.ran(what, p(3, -4), 10, p(-3, 4), 11, p(row[0], row[1]), 10, 12, stored(1), stored(0), p(0, -9), 10,
+                p(row[0], row[1]), 11, 13, stored(3), stored(2));
+            for (int k = 0; k < 4; k++) {
+                Check.due(what + " by " + (10 + k / 2) + ", behind another one", behind.held(1, k), row[2 + k % 2]);
             }
             // D is as P: 71 of x, y tells it.
             HintHouse d = Prep.ran(what, p(0), 22, p(1), FontKit.number(16384), 72, p(row[0], row[1]), 10, p(1), 71, stored(0));
@@ -233,6 +239,10 @@ public final class EdgesCodesTest {
         Prep.gives("a second 27", 3, p(3), p(1), 88, 27, p(1), 27, p(2), 89);
         Prep.gives("a second 27, done", 5, p(0), 88, p(1), 27, p(5), 27, p(2), 89);
         Prep.gives("89 alone", 3, p(3), 89, 89);
+        for (int code : p(24, 25, 61, 122, 124, 125)) {
+            Prep.gives("89 leaves ROUNDING " + code, rounded(1, code == 122 ? 1 : code == 61 ? 32 : 64, code == 25 ? 32 : 0,
+                code == 124 ? 63 : code == 61 ? 16 : code == 122 || code == 125 ? 0 : 32), code, p(1), 88, 89, p(1), 104);
+        }
         // A FUNCTION in an IF that is passed over does not come to be.
         Prep.fails("no FUNCTION", 6, 15, p(0), 88, p(0), 44, 89, p(0), 43);
         Prep.gives("OWN CODE 255 in an IF", 9, p(1), 88, p(255), 137, 45, 89, p(9));
@@ -263,6 +273,15 @@ public final class EdgesCodesTest {
         HintHouse back = kit.sized(10);
         Check.due("back in prep", back.held(1, 1), 5);
         Check.due("a jump by prep's own places", back.held(1, 2), 6);
+        // Behind a FUNCTION of fpgm the places are prep's again: for a FAILURE, and for a jump out of it.
+        kit.prep = FontKit.prog(p(0), 43, 1, 33);
+        Prep.failsIn("a FAILURE behind a FUNCTION", kit, 1, 6);
+        kit.prep = FontKit.prog(p(0), 43, p(-10), 28);
+        Prep.failsIn("a jump before prep's begin behind a FUNCTION", kit, 8, 9);
+        kit.prep = FontKit.prog(p(0), 43, p(2), 28);
+        Prep.failsIn("a jump behind prep's end behind a FUNCTION", kit, 8, 9);
+        kit.prep = FontKit.prog(p(0), 43, p(1), 28);
+        Check.due("a jump to prep's end behind a FUNCTION", kit.house().size(10) > 0 ? 1 : 0, 1);
     }
 
     /** "176 .. 183: 1 .. 8 U1s; 184 .. 191: S2s", "64: n (U1) and n U1s behind ... 65: n S2s": in order, with their signs. */
@@ -343,6 +362,19 @@ public final class EdgesCodesTest {
             HintHouse house = Prep.ran("SHIFT " + shift, p(shift), 95, p(0x18, 0, 1), 115, p(0x10, 1, 1), 115);
             Check.due("SHIFT " + shift, house.held(0, 0), 100 + (64 >> shift));
             Check.due("SHIFT " + shift + ", -8", house.held(0, 1), -50 - (512 >> shift));
+        }
+    }
+
+    /** "68 (i v -), 112 (i v -): CVT i is v; v SCALED", "31 (v -): SINGLE is v SCALED", all others as they are. */
+    private static void asItIsOrScaled() {
+        HintHouse house = Prep.kit(p(0, 7), 68, p(1, 7), 112, p(0, 7), 66, p(0), 22, p(1, 7), 72, p(2, 7), 56, p(3, 7), 58).house();
+        house.size(20);
+        Check.due("68 at 20", house.held(0, 0), 7);
+        Check.due("112 at 20", house.held(0, 1), 14);
+        Check.due("CVT 2 at 20", house.held(0, 2), 128);
+        Check.due("66 at 20", house.held(1, 0), 7);
+        for (int i = 1; i <= 3; i++) {
+            Check.due("TWILIGHT point " + i + " at 20", house.held(2, i), 7);
         }
     }
 

@@ -8,6 +8,7 @@ public final class EdgesFailuresTest {
     public static void main(String[] args) {
         tooFewForEachCode();
         justEnoughForEachCode();
+        tooFewOfNone();
         tooFewByLoop();
         tooFewBelow();
         tooFewDeltas();
@@ -94,6 +95,27 @@ public final class EdgesFailuresTest {
                 boolean deltas = code == 93 || code >= 113 && code <= 117;
                 HintHouse house = Prep.kit(p(0), 22, row(TAKES[code], deltas ? 0 : 1), code).house();
                 Check.due("code " + code + " with " + TAKES[code], house.size(10) == -101 ? 1 : 0, 0);
+            }
+        }
+    }
+
+    /** 1 goes before 6, even if there is no STORAGE, no CVT, no FUNCTION at all, and before 2 on a STACK of none. */
+    private static void tooFewOfNone() {
+        for (int code : p(42, 43, 44, 62, 63, 66, 67, 68, 69, 112, 224, 255)) {
+            for (int there = 0; there < TAKES[code]; there++) {
+                FontKit kit = new FontKit().addEmpty();
+                kit.storage = 0;
+                kit.functions = 0;
+                kit.prep = FontKit.prog(row(there, 0), code);
+                Prep.failsIn("code " + code + " with " + there + ", none of them", kit, 1, 2 + 2 * there);
+            }
+        }
+        for (int code = 0; code < 256; code++) {
+            if (TAKES[code] > 0) {
+                FontKit kit = new FontKit().addEmpty();
+                kit.stack = 0;
+                kit.prep = FontKit.prog(code);
+                Prep.failsIn("code " + code + " on a STACK of none", kit, 1, 0);
             }
         }
     }

@@ -1,3 +1,4 @@
+import java.util.ArrayList;
 import java.util.Arrays;
 import java.util.TreeMap;
 
@@ -26,6 +27,8 @@ public final class EdgesFontTest {
         locaNeverGoesDown();
         cmapRecords();
         programTables();
+        tablesInAnyOrder();
+        nothingStays();
         Check.done();
     }
 
@@ -450,6 +453,116 @@ public final class EdgesFontTest {
         for (int length = 0; length < 12; length++) {
             kit.cmap = Arrays.copyOf(records, length);
             fault("cmap of " + length, kit.font(), 12);
+        }
+    }
+
+    /** The bytes of each table may be the last ones of the font, whatever place its TAG has. */
+    private static void tablesInAnyOrder() {
+        FontKit kit = new FontKit().addEmpty();
+        kit.add(-1, -77, FontKit.simple(0, new byte[0], new int[] {0, 0, 1, 5, -9, 1}));
+        kit.cvt = FontKit.words(5, -6);
+        kit.kern = FontKit.kerns(1, 1, -5);
+        kit.cmap = FontKit.groups(65, 65, 1);
+        kit.prep = FontKit.prog(new int[] {0, 7}, 66);
+        kit.fpgm = FontKit.prog(new int[] {1, 8}, 66);
+        TreeMap<String, byte[]> tables = kit.tables();
+        for (String last : tables.keySet()) {
+            ArrayList<String> order = new ArrayList<>(tables.descendingKeySet());
+            order.remove(last);
+            order.add(last);
+            HintHouse house = new HintHouse();
+            FontKit.feed(house, FontKit.join(tables, order));
+            Check.due(last + " at the end: load()", house.load(), 2);
+            Check.due(last + " at the end: size(10)", house.size(10), 4);
+            Check.due(last + " at the end: make(1)", house.make(1), 2);
+            long[] got = {house.glyph(1, 0), house.glyph(1, 1), house.kern(1, 1), house.glyphOf(65), house.held(0, 1), house.held(1, 0),
+                house.held(1, 1), house.point(1, 1), house.font(0)};
+            long[] due = {65535, -77, -5, 1, -6, 7, 8, -9, 640};
+            for (int k = 0; k < due.length; k++) {
+                Check.due(last + " at the end: number " + k, got[k], due[k]);
+            }
+        }
+    }
+
+    private static byte[][] fonts() {
+        FontKit full = new FontKit().addEmpty().addSquare(1, 1);
+        full.add(9, 9, FontKit.withProgram(FontKit.composed(7, FontKit.part(34, 1, 0, 0), FontKit.part(2 + 256, 1, 0, 0)), 1));
+        full.cvt = FontKit.words(1, 2, 3);
+        full.kern = FontKit.kerns(0, 1, -5, 1, 1, 6);
+        full.prep = FontKit.prog(1, 1);
+        full.fpgm = FontKit.prog(1);
+        FontKit plain = new FontKit().addEmpty().addEmpty().addEmpty().addEmpty();
+        plain.metrics = 1;
+        plain.depth = 1;
+        byte[] map = new FontKit.Out().u2(0, 262, 0).raw(new byte[256]).done();
+        map[6 + 65] = 2;
+        plain.cmap = FontKit.cmap(1, 0, map);
+        FontKit one = new FontKit().addSquare().add(0, 0, FontKit.composed(0, FontKit.part(2, 0, 0, 0)));
+        one.depth = 1;
+        one.cmap = FontKit.cmap(3, 1, new FontKit.Out().u2(4, 24, 0, 2, 0, 0, 0).u2(65535, 0, 0, 65536 - 64, 0).done());
+        FontKit torn = new FontKit().addEmpty().add(0, 0, Arrays.copyOf(FontKit.simple(0, new byte[0], FontKit.square(0, 0, 9)), 15));
+        FontKit far = new FontKit().addEmpty();
+        far.cmap = new FontKit.Out().u2(0, 1, 1, 0).u4(9999).raw(map).done();
+        TreeMap<String, byte[]> less = full.tables();
+        less.remove("loca");
+        FontKit deep = new FontKit().add(0, 0, FontKit.composed(0, FontKit.part(2, 1, 0, 0)));
+        deep.add(0, 0, FontKit.composed(0, FontKit.part(2, 0, 0, 0)));
+        return new byte[][] {full.font(), plain.font(), one.font(), torn.font(), far.font(), FontKit.join(less), deep.font(), new byte[11], new byte[0]};
+    }
+
+    /** All that can be told of the font that is LOADED. */
+    private static long[] facts(HintHouse house, int answer) {
+        long[] facts = new long[200];
+        int k = 0;
+        facts[k++] = answer;
+        for (int what = 0; what < 10; what++) {
+            facts[k++] = house.font(what);
+        }
+        for (int table = 0; table < 12; table++) {
+            for (int what = 0; what < 4; what++) {
+                facts[k++] = house.table(table, what);
+            }
+        }
+        for (int g = 0; g < 5; g++) {
+            for (int what = 0; what < 8; what++) {
+                facts[k++] = house.glyph(g, what);
+            }
+            facts[k++] = house.kern(g, 1);
+            facts[k++] = house.glyphOf(64 + g);
+        }
+        facts[k++] = house.size(10);
+        for (int g = 0; g < 5; g++) {
+            facts[k++] = house.make(g);
+            facts[k++] = house.told(5);
+            facts[k++] = house.told(4);
+        }
+        for (int i = 0; i < 4; i++) {
+            facts[k++] = house.held(0, i);
+        }
+        return facts;
+    }
+
+    /** What was LOADED before, or was a FAULT, leaves nothing in the font that is LOADED then. */
+    private static void nothingStays() {
+        byte[][] fonts = fonts();
+        int[] answers = {3, 4, 2, -111, -112, -105, -111, -101, -101};
+        for (int first = 0; first < fonts.length; first++) {
+            for (int second = 0; second < fonts.length; second++) {
+                HintHouse house = new HintHouse();
+                FontKit.feed(house, fonts[first]);
+                facts(house, house.load());
+                house.wipe();
+                FontKit.feed(house, fonts[second]);
+                HintHouse fresh = new HintHouse();
+                FontKit.feed(fresh, fonts[second]);
+                int answer = fresh.load();
+                Check.due("load() of font " + second, answer, answers[second]);
+                long[] got = facts(house, house.load());
+                long[] due = facts(fresh, answer);
+                for (int k = 0; k < due.length; k++) {
+                    Check.due("font " + second + " behind font " + first + ": fact " + k, got[k], due[k]);
+                }
+            }
         }
     }
 

@@ -208,6 +208,15 @@ public final class EdgesGlyphsTest {
         for (int length = 1; length < composed.length + 3; length++) {
             holds("the first " + length + " of parts", Arrays.copyOf(composed, length), length >= composed.length);
         }
+        // Parts of all lengths, each the last one and without a program.
+        byte[][] parts = {FontKit.part(2, 1, 0, 0), FontKit.part(3, 1, 0, 0), FontKit.part(3 + 8, 1, 0, 0, 1), FontKit.part(3 + 64, 1, 0, 0, 1, 2),
+            FontKit.part(2 + 128, 1, 0, 0, 1, 2, 3, 4), FontKit.part(3 + 128, 1, 0, 0, 1, 2, 3, 4)};
+        for (byte[] part : parts) {
+            byte[] glyph = FontKit.composed(0, part);
+            for (int less = -1; less <= part.length; less++) {
+                holds("a last part of " + part.length + " less " + less, Arrays.copyOf(glyph, glyph.length - less), less <= 0);
+            }
+        }
         HintHouse house = kit(Arrays.copyOf(square, square.length + 7)).house();
         Check.due("glyph(2, 2) with bytes left over", house.glyph(2, 2), square.length + 7);
         Check.due("glyph(2, 5) with bytes left over", house.glyph(2, 5), 5);

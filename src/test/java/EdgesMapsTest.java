@@ -4,6 +4,7 @@ import java.util.Arrays;
 public final class EdgesMapsTest {
     public static void main(String[] args) {
         whichMap();
+        recordsThatCount();
         whereItBegins();
         byteMap();
         segmentCount();
@@ -96,6 +97,15 @@ public final class EdgesMapsTest {
                 out.u2(kinds[kind][0], kinds[kind][1]).u4(begins[kind]).raw(zero).raw(four).raw(twelve);
                 holds("record " + kind + " leads to form " + form, out.done(), kind == form);
             }
+        }
+    }
+
+    /** "how many RECORDS m": what stands behind the last one is none. */
+    private static void recordsThatCount() {
+        byte[] map = Arrays.copyOfRange(FontKit.groups(65, 65, 3), 12, 40);
+        for (int m = 1; m <= 3; m++) {
+            FontKit.Out out = new FontKit.Out().u2(0, m).u2(3, 0).u4(28).u2(0, 4).u4(28).u2(3, 10).u4(28).raw(map);
+            holds("3, 10 as the third record of " + m, out.done(), m == 3);
         }
     }
 
@@ -308,6 +318,10 @@ public final class EdgesMapsTest {
         Check.due("glyphOf(-1)", house.glyphOf(-1), -2);
         Check.due("glyphOf(1114112)", house.glyphOf(1114112), -2);
         Check.due("glyphOf(the least)", house.glyphOf(Integer.MIN_VALUE), -2);
+        // A third group that is not told, in the map's length.
+        byte[] two = FontKit.groups(5, 6, 1, 7, 7, 2, 8, 9, 3);
+        FontKit.setU4(two, 24, 2);
+        glyphs("a group behind the last one", two, p(7, 2), p(8, 0), p(9, 0));
         byte[] end = FontKit.groups(1114111, 1114111, 5);
         glyphs("the last code", end, p(1114110, 0), p(1114111, 5));
     }
@@ -358,6 +372,12 @@ public final class EdgesMapsTest {
         kern("65535 pairs", changed(many, 10, 65535), false);
         kern("two pairs, one there", changed(many, 10, 2), false);
         kern("no pairs, one there", changed(many, 10, 0), true);
+        FontKit behind = kit(FontKit.groups(65, 70, 1));
+        behind.kern = changed(FontKit.kerns(1, 2, 3, 4, 5, 6), 10, 1);
+        HintHouse first = behind.house();
+        Check.due("kern(1, 2)", first.kern(1, 2), 3);
+        Check.due("kern(4, 5), behind the last pair", first.kern(4, 5), 0);
+        Check.due("font(6) of one", first.font(6), 1);
         kern("by RIGHT", FontKit.kerns(1, 2, 0, 1, 3, 0), true);
         kern("the same", FontKit.kerns(1, 2, 0, 1, 2, 1), false);
         kern("RIGHT goes down", FontKit.kerns(1, 3, 0, 1, 2, 0), false);

@@ -14,6 +14,7 @@ public final class EdgesPixelsTest {
         atLast();
         canvasSizes();
         middlesOfPixels();
+        toOneSide();
         farAway();
         lineOfNone();
         lineKerns();
@@ -285,6 +286,22 @@ public final class EdgesPixelsTest {
         Check.due("a square by 1: which", square.pixel(1, 1), 1);
         square.canvas(4, 4);
         Check.due("a square by -1, 0", square.draw(-1, 0), 2);
+    }
+
+    /** Outlines that lie to one side of 0 alone, drawn so that they are seen. */
+    private static void toOneSide() {
+        int[][] sides = {{-320, -320}, {64, 64}, {-320, 64}, {64, -320}, {-129, -129}};
+        for (int[] side : sides) {
+            HintHouse house = made(FontKit.square(side[0], side[1], 128));
+            house.canvas(8, 8);
+            Check.due("a square from " + side[0] + ", " + side[1], house.draw(128 - side[0], 192 - side[1]), 4);
+            for (int j = 0; j < 8; j++) {
+                for (int i = 0; i < 8; i++) {
+                    int due = (i == 2 || i == 3) && (j == 3 || j == 4) ? 1 : 0;
+                    Check.due("pixel(" + i + ", " + j + ") of a square from " + side[0], house.pixel(i, j), due);
+                }
+            }
+        }
     }
 
     /** "-2 x or y is not -20000 .. 20000", "-2 x or y is not -5000 .. 5000": nothing is drawn there, but no more than that. */

@@ -24,6 +24,7 @@ public final class EdgesPointsTest {
         flip();
         bitsOfMeasuring();
         twilight();
+        deltasOfZones();
         interpolation();
         turning();
         ranges();
@@ -260,6 +261,9 @@ public final class EdgesPointsTest {
             xs("none TOUCHED by " + code, free, 28, 128, 88, 48);
             HintHouse still = Triangle.made("not TOUCHED", moved, p(1), code, p(0, 100), 72, p(0), 41, 49);
             xs("0 was not TOUCHED by " + code, still, 28, 128, 88, 48);
+            // 1 goes 20 more: the others of its contour were not TOUCHED, and go by 38 in all.
+            HintHouse along = Triangle.made("not TOUCHED", moved, p(1), code, p(1, 20), 56, 49);
+            xs("they go along with 1 by " + code, along, 48, 148, 108, 48);
             // All TWILIGHT points, the first and the last.
             for (int i : p(0, 3)) {
                 Triangle.gives("TWILIGHT point " + i + " by " + code, 18, moved, p(0), code, p(0), 21, p(i), 70);
@@ -438,6 +442,8 @@ public final class EdgesPointsTest {
             // d is 20 (from 10 to 30), RP0 at 10: ROUNDED it is 0, at least 64 by bit 8.
             int e = (bits & 8) != 0 ? 64 : (bits & 4) != 0 ? 0 : 20;
             Triangle.moves("code " + (192 + bits), 3, 10 + e, 30, p(3), 192 + bits);
+            Triangle.moves("code " + (192 + bits) + ", moved before", 3, 10 + e, 30, p(3, 99), 72, p(3), 192 + bits);
+            Check.due("ON behind " + (192 + bits), Triangle.made("ON", p(3), 192 + bits).point(3, 2), 1);
             int byCvt = (bits & 8) != 0 ? 64 : (bits & 4) != 0 ? 64 : 40;
             Triangle.moves("code " + (224 + bits), 3, 10 + byCvt, 30, p(0, 40), 68, p(3, 0), 224 + bits);
             boolean sets = (bits & 16) != 0;
@@ -475,6 +481,23 @@ public final class EdgesPointsTest {
         house = Prep.ran("72", p(0), 22, p(1, 33), 56, 0, p(1, 44), 72);
         held("72", house, 1, 33, 44, 33, 44);
         Triangle.gives("72 of zone 1 leaves ORIGINAL", 110, p(1, 33), 72, p(1), 71);
+    }
+
+    /** "93, 113, 114 (v p/0 .. n -)": 4 and 5 are the glyph's PHANTOMS, but no TWILIGHT points. */
+    private static void deltasOfZones() {
+        int[][] codes = {{93, 9}, {113, -7}, {114, -23}};
+        for (int[] row : codes) {
+            for (int i : p(0, 3, 4, 5, 6)) {
+                byte[] delta = FontKit.prog(p(row[1]), 94, p(0x18, i, 1), row[0]);
+                Check.due("point " + i + " by " + row[0], Triangle.kit(delta).sized(10).make(1), i < 6 ? 4 : -105);
+                Check.due("point " + i + " by " + row[0] + ", ZP0 0", Triangle.kit(p(0), 19, delta).sized(10).make(1), i < 4 ? 4 : -105);
+                Check.due("point " + i + " by " + row[0] + ", ZP1, ZP2 0", Triangle.kit(p(0), 20, p(0), 21, delta).sized(10).make(1), i < 6 ? 4 : -105);
+            }
+            byte[] delta = FontKit.prog(p(row[1]), 94, p(0x18, 1, 1), row[0]);
+            Triangle.moves("1 by " + row[0], 1, 118, 40, delta);
+            Triangle.moves("1 by " + row[0] + ", ZP0 0", 1, 110, 40, p(0), 19, delta);
+            Triangle.gives("TWILIGHT point 1 by " + row[0], 8, p(0), 19, delta, p(0), 21, p(1), 70);
+        }
     }
 
     private static void held(String what, HintHouse house, int i, int... due) {

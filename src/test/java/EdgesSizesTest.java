@@ -11,11 +11,16 @@ public final class EdgesSizesTest {
         phantoms();
         phantomsAreRounded();
         phantomsOfParts();
+        phantomsBeginAnew();
+        nothingIsTouched();
+        partsInParts();
         offsetsHalvesUp();
         matchedPoints();
         hundredPoints();
         twentyContours();
         sixtyParts();
+        hundredPointsWithAProgram();
+        theFirstFailure();
         onlyTheGlyphAskedForGoesLeft();
         onAsProgramsLeftIt();
         Check.done();
@@ -301,6 +306,63 @@ public final class EdgesSizesTest {
         Check.due("no such part: ADVANCE", house.told(4), 1024 - 128);
     }
 
+    /** "(... y 0; ...)": whatever another glyph's program did with its PHANTOMS. */
+    private static void phantomsBeginAnew() {
+        FontKit kit = new FontKit().add(100, 0, FontKit.simple(0, FontKit.prog(0, p(1, 5), 56, p(2, 7), 56), p(0, 0, 1)));
+        kit.add(100, 0, FontKit.simple(0, FontKit.prog(0, p(1), 70, 133, p(2), 70, 141), p(0, 0, 1)));
+        HintHouse house = kit.sized(10);
+        for (int turn = 0; turn < 2; turn++) {
+            house.make(0);
+            house.make(1);
+            Check.due("y of the first one", house.told(7), 0);
+            Check.due("y of the other one", house.told(8), 0);
+        }
+    }
+
+    /** "nothing is TOUCHED": whatever another glyph's program, or a part's, has TOUCHED. */
+    private static void nothingIsTouched() {
+        int[] row = p(0, 0, 1, 10, 10, 1, 20, 20, 1);
+        FontKit kit = new FontKit().add(0, 0, FontKit.simple(0, FontKit.prog(p(0), 46, p(2), 46, 0, p(0), 46, p(2), 46), row));
+        // Were 0 or 2 TOUCHED, they would stay.
+        byte[] fill = FontKit.prog(p(1, 7), 56, 49, 0, p(1, 7), 56, 48);
+        kit.add(0, 0, FontKit.simple(0, fill, row));
+        kit.add(0, 0, FontKit.withProgram(FontKit.composed(0, FontKit.part(2 + 256, 0, 0, 0)), fill));
+        HintHouse house = kit.sized(10);
+        for (int g : p(1, 2)) {
+            house.make(0);
+            Check.due("make(" + g + ")", house.make(g), 3);
+            for (int i = 0; i < 3; i++) {
+                Check.due("x of " + i + " of " + g, house.point(i, 0), 10 * i + 7);
+                Check.due("y of " + i + " of " + g, house.point(i, 1), 10 * i + 7);
+            }
+        }
+    }
+
+    /** "for each PART in order its glyph is MADE (likewise ...)": a part's own parts leave its numbers as they are. */
+    private static void partsInParts() {
+        FontKit kit = new FontKit().add(0, 0, FontKit.simple(0, new byte[0], p(0, 0, 1, 8, 4, 1)));
+        kit.add(0, 0, FontKit.composed(0, FontKit.part(34 + 8, 0, 1, 2, 8192), FontKit.part(0, 0, 1, 0)));
+        kit.add(0, 0, FontKit.composed(0, FontKit.part(34 + 1 + 64, 1, 200, 300, 16384, -16384), FontKit.part(2, 1, 100, 50)));
+        HintHouse house = kit.sized(10);
+        // Glyph 1: 1, 2; 5, 4; then 0, 0 on 5, 4: 5, 4; 13, 8.
+        Check.due("make(1)", house.make(1), 4);
+        int[] inner = {1, 2, 5, 4, 5, 4, 13, 8};
+        Check.due("make(2)", house.make(2), 8);
+        for (int i = 0; i < 4; i++) {
+            Check.due("x of " + i, house.point(i, 0), 200 + inner[2 * i]);
+            Check.due("y of " + i, house.point(i, 1), 300 - inner[2 * i + 1]);
+            Check.due("x of " + (4 + i), house.point(4 + i, 0), 100 + inner[2 * i]);
+            Check.due("y of " + (4 + i), house.point(4 + i, 1), 50 + inner[2 * i + 1]);
+        }
+        kit.add(0, 0, FontKit.composed(0, FontKit.part(34, 0, 0, 0), FontKit.part(32, 1, 1, 3), FontKit.part(2 + 512, 1, 0, 0)));
+        house = kit.sized(10);
+        // Point 3 of glyph 1, at 13, 8, comes to lie on 8, 4.
+        Check.due("make(3)", house.make(3), 10);
+        Check.due("x of the matched one", house.point(5, 0), 8);
+        Check.due("y of the matched one", house.point(5, 1), 4);
+        Check.due("x of the third part", house.point(9, 0), 13);
+    }
+
     /** "with bit 4 each rounded to a multiple of PX (halves up)". */
     private static void offsetsHalvesUp() {
         int[][] due = {{31, 0}, {32, 64}, {-31, 0}, {-32, 0}, {-33, -64}, {96, 128}, {-96, -64}, {-97, -128}, {64, 64}, {0, 0}};
@@ -415,6 +477,64 @@ public final class EdgesSizesTest {
             Check.due("61 parts: the 61st is not made", house.told(0), 2);
             Check.due("61 parts, the last one empty", house.make(6), -112);
             Check.due("61 parts: told(3)", house.told(3), -1);
+        }
+    }
+
+    /** "PHANTOMS aside": behind 100 points both have room, and their program can use all of them. */
+    private static void hundredPointsWithAProgram() {
+        for (int points : p(98, 99, 100)) {
+            int[] dots = new int[3 * points];
+            byte[] program = FontKit.prog(p(points - 1, 7), 56, p(points, 64), 56, p(points + 1, 65), 56, 48, 49, p(points + 1), 70, 133);
+            FontKit kit = new FontKit().add(200, 0, FontKit.simple(0, program, dots));
+            kit.add(200, 0, FontKit.withProgram(FontKit.composed(0, FontKit.part(2 + 256, 0, 0, 0)), p(points + 2), 46));
+            HintHouse house = kit.sized(10);
+            Check.due("make(0) of " + points, house.make(0), points);
+            Check.due("the last point of " + points, house.point(points - 1, 0), 7 - 64);
+            Check.due("the first point of " + points, house.point(0, 0), 7 - 64);
+            Check.due("the last PHANTOM of " + points, house.told(7), 192 + 65);
+            Check.due("ADVANCE of " + points, house.told(4), 192 + 65 - 64);
+            Check.due("one more than there are, of " + points, house.make(1), -105);
+        }
+    }
+
+    /** "FAILURES end the program (and what it is for) ... The first of these". */
+    private static void theFirstFailure() {
+        FontKit kit = new FontKit().add(0, 0, FontKit.simple(0, FontKit.prog(p(0), FontKit.number(2000000), 72), p(0, 0, 1)));
+        kit.add(0, 0, FontKit.simple(0, FontKit.prog(1, 15, 1), p(0, 0, 1)));
+        kit.add(0, 0, FontKit.composed(0, FontKit.part(34, 0, 0, 0), FontKit.part(2, 1, 0, 0)));
+        kit.add(0, 0, FontKit.composed(0, FontKit.part(34, 1, 0, 0), FontKit.part(0, 0, 99, 99)));
+        kit.add(0, 0, FontKit.withProgram(FontKit.composed(0, FontKit.part(34, 0, 0, 0), FontKit.part(32, 0, 9, 9), FontKit.part(2 + 256, 1, 0, 0)), 33));
+        kit.add(0, 0, FontKit.withProgram(FontKit.composed(0, FontKit.part(2 + 256, 2, 0, 0)), 33));
+        HintHouse house = kit.sized(10);
+        // What fails first, its place, and the steps till then: 12 of the part that goes far away, 2 of the one that fails.
+        int[][] due = {{2, -103, 1, 14}, {3, -103, 1, 2}, {4, -105, -1, 24}, {5, -103, 1, 14}};
+        for (int[] row : due) {
+            Check.due("make(" + row[0] + ")", house.make(row[0]), row[1]);
+            Check.due("told(3) of " + row[0], house.told(3), row[2]);
+            Check.due("told(0) of " + row[0], house.told(0), row[3]);
+        }
+        Check.due("told(1)", house.told(1), 4);
+        theFirstOutsideOfPrograms();
+    }
+
+    /** The same of FAILURES 5, 12 and 13, each with another one of them behind it. */
+    private static void theFirstOutsideOfPrograms() {
+        FontKit kit = new FontKit().add(0, 0, FontKit.simple(0, FontKit.prog(p(0), FontKit.number(2000000), 72), p(0, 0, 1)));
+        kit.add(0, 0, new byte[0]).add(0, 0, partsOf(1, 1, 1, 1, 1, 1, 1, 1)).add(0, 0, partsOf(2, 2, 2, 2, 2, 2));
+        kit.add(0, 0, partsOf(0)).add(0, 0, dots(1, 100));
+        byte[] none = FontKit.part(32, 1, 99, 99);
+        byte[] last = FontKit.part(2, 5, 0, 0);
+        // 13 in a part, 12 by points, 5, 12 by parts: then 5, 5, 12 and (at last) 13.
+        kit.add(0, 0, FontKit.composed(0, FontKit.part(34, 4, 0, 0), none, last));
+        kit.add(0, 0, FontKit.composed(0, FontKit.part(34, 5, 0, 0), FontKit.part(34, 5, 0, 0), none, last));
+        kit.add(0, 0, FontKit.composed(0, FontKit.part(34, 5, 0, 0), none, last));
+        kit.add(0, 0, partsOf(3, 1, 1, 1, 1, 0, 1));
+        kit.depth = 3;
+        HintHouse house = kit.sized(10);
+        int[] due = {-113, -112, -105, -112};
+        for (int k = 0; k < due.length; k++) {
+            Check.due("make(" + (6 + k) + ")", house.make(6 + k), due[k]);
+            Check.due("told(3) of " + (6 + k), house.told(3), -1);
         }
     }
 

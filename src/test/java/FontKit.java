@@ -243,36 +243,45 @@ final class FontKit {
         return sum & 0xffffffffL;
     }
 
+    private static byte[] withoutHeadSum(String tag, byte[] bytes) {
+        byte[] other = bytes.clone();
+        for (int i = 8; tag.equals("head") && i < 12 && i < bytes.length; i++) {
+            other[i] = 0;
+        }
+        return other;
+    }
+
     static int directoryLength(int tables) {
         return 12 + 16 * tables;
     }
 
     /** The font with all its sums right; the last table is not padded. */
     static byte[] join(TreeMap<String, byte[]> tables) {
+        return join(tables, new ArrayList<>(tables.keySet()));
+    }
+
+    /** The same, with the tables' bytes in another order than the directory tells them. */
+    static byte[] join(TreeMap<String, byte[]> tables, List<String> order) {
         int n = tables.size();
         int e = 31 - Integer.numberOfLeadingZeros(Math.max(n, 1));
         Out out = new Out().u4(65536).u2(n, 16 << e, e, 16 * n - (16 << e));
         Out body = new Out();
+        TreeMap<String, Integer> begins = new TreeMap<>();
         int at = directoryLength(n);
-        int headAt = -1;
-        int left = n;
-        for (String tag : tables.keySet()) {
-            byte[] bytes = tables.get(tag).clone();
-            left--;
-            if (tag.equals("head")) {
-                headAt = at;
-                for (int i = 8; i < 12 && i < bytes.length; i++) {
-                    bytes[i] = 0;
-                }
-            }
-            for (int i = 0; i < 4; i++) {
-                out.u1(tag.charAt(i));
-            }
-            out.u4(sum(bytes), at, bytes.length);
-            int pad = left == 0 ? 0 : -bytes.length & 3;
+        for (String tag : order) {
+            byte[] bytes = withoutHeadSum(tag, tables.get(tag));
+            begins.put(tag, at);
+            int pad = begins.size() == n ? 0 : -bytes.length & 3;
             body.raw(bytes).raw(new byte[pad]);
             at += bytes.length + pad;
         }
+        for (String tag : tables.keySet()) {
+            for (int i = 0; i < 4; i++) {
+                out.u1(tag.charAt(i));
+            }
+            out.u4(sum(withoutHeadSum(tag, tables.get(tag))), begins.get(tag), tables.get(tag).length);
+        }
+        int headAt = begins.getOrDefault("head", -1);
         byte[] font = out.raw(body.done()).done();
         if (headAt >= 0 && headAt + 12 <= font.length) {
             setU4(font, headAt + 8, 2981146554L - sum(font));
