@@ -264,6 +264,12 @@ public final class EdgesFailuresTest {
         Triangle.fails("FUNCTION 99 in a glyph", 3, p(99), 44, 45);
         Prep.fails("own code 256 in a FUNCTION", 3, 9, p(0), 44, p(256), 137, 45, p(0), 43);
         Prep.fails("44 in an own code", 3, 9, p(150), 137, p(0), 44, 45, 150);
+        // Each of these goes before 4: there is no 45 behind.
+        Triangle.fails("own code 150 in a glyph, without its 45", 3, p(150), 137);
+        Triangle.fails("FUNCTION 0 in a glyph, without its 45", 3, p(0), 44);
+        Prep.fails("own code 256, without its 45", 11, 4, p(256), 137);
+        Prep.fails("FUNCTION 8, without its 45", 6, 4, p(8), 44);
+        Prep.fails("own code 152 of a third, without its 45", 6, 16, p(150), 137, 45, p(151), 137, 45, p(152), 137);
     }
 
     /** "4 the program ends within a code's bytes". */

@@ -394,11 +394,19 @@ public final class EdgesFontTest {
         for (int form = 0; form < 2; form++) {
             FontKit kit = kit();
             kit.form = form;
+            kit.metrics = 1;
             int length = 8 + 8 * form;
             for (int by = -1; by <= 1; by++) {
                 TreeMap<String, byte[]> tables = kit.tables();
                 tables.put("loca", Arrays.copyOf(tables.get("loca"), length + by));
                 tables("loca of " + (length + by) + ", form " + form, tables, by < 0 ? -110 : 3);
+                // All are 0, and so are the bytes behind.
+                FontKit empties = new FontKit().addEmpty().addEmpty().addEmpty();
+                empties.form = form;
+                empties.metrics = 1;
+                tables = empties.tables();
+                tables.put("loca", Arrays.copyOf(tables.get("loca"), length + by));
+                tables("loca of " + (length + by) + " of empty ones, form " + form, tables, by < 0 ? -110 : 3);
             }
         }
     }
@@ -419,6 +427,13 @@ public final class EdgesFontTest {
             }
         }
         FontKit kit = new FontKit().add(0, 0, new byte[12]);
+        kit.form = 0;
+        for (int place : new int[] {7, 32767, 32768, 65535}) {
+            TreeMap<String, byte[]> twice = kit.tables();
+            twice.put("loca", new FontKit.Out().u2(place, place).done());
+            tables("places of twice " + place, twice, -110);
+        }
+        kit.form = 1;
         TreeMap<String, byte[]> tables = kit.tables();
         tables.put("loca", new FontKit.Out().u4(0, 0x100000000L - 4).done());
         tables("a place of 2^32 - 4", tables, -110);

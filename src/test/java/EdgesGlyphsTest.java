@@ -281,6 +281,20 @@ public final class EdgesGlyphsTest {
         house.make(2);
         Check.due("x by -2", house.point(2, 0), -640);
         Check.due("y by 32767 / 16384", house.point(2, 1), 640);
+        // Each of them has a sign: x of point 1 is 320, y of point 3 is 320.
+        int[][] signs = {{8, -8192, 0, 0, 0, -160, 0, 0, -160}, {64, -8192, 4096, 0, 0, -160, 0, 0, 80}, {64, 8192, -4096, 0, 0, 160, 0, 0, -80},
+            {128, -8192, 4096, 2048, 1024, -160, 80, 40, 20}, {128, 8192, -4096, 2048, 1024, 160, -80, 40, 20},
+            {128, 8192, 4096, -2048, 1024, 160, 80, -40, 20}, {128, 8192, 4096, 2048, -1024, 160, 80, 40, -20}};
+        for (int[] row : signs) {
+            int[] numbers = Arrays.copyOfRange(row, 1, row[0] == 8 ? 2 : row[0] == 64 ? 3 : 5);
+            HintHouse sign = kit(FontKit.composed(0, FontKit.part(2 + row[0], 1, 0, 0, numbers))).sized(10);
+            sign.make(2);
+            String what = "by " + Arrays.toString(numbers) + ": ";
+            Check.due(what + "x of 1", sign.point(1, 0), row[5]);
+            Check.due(what + "y of 1", sign.point(1, 1), row[6]);
+            Check.due(what + "x of 3", sign.point(3, 0), row[7]);
+            Check.due(what + "y of 3", sign.point(3, 1), row[8]);
+        }
         // Numbers of a part do not stay for the next one.
         byte[] four = FontKit.part(34 + 128, 1, 0, 0, 1, 16384, 16384, 1);
         HintHouse next = kit(FontKit.composed(0, four, FontKit.part(34 + 64, 1, 0, 0, 8192, 4096), four,
@@ -343,6 +357,7 @@ public final class EdgesGlyphsTest {
                 }
                 up.addSquare();
                 down.depth = depth;
+                down.metrics = 1;
                 up.depth = depth;
                 int due = deep <= depth ? deep + 1 : -111;
                 Check.due(deep + " deep, DEPTH " + depth, FontKit.loadBytes(down.font()), due);

@@ -186,6 +186,9 @@ public final class EdgesMapsTest {
                 holds("begin " + k + " above its end", cmap4(p(5, 20, 65535), begins, p(0, 0, 0), p(0, 0, 0)), false);
             }
         }
+        holds("65535 above 40000", cmap4(p(40000, 65535), p(65535, 0), p(0, 0), p(0, 0)), false);
+        holds("40001 above 40000", cmap4(p(40000, 65535), p(40001, 0), p(0, 0), p(0, 0)), false);
+        holds("40000 is not above 40000", cmap4(p(40000, 65535), p(40000, 0), p(0, 0), p(0, 0)), true);
         // A BEGIN may lie below the END before it.
         glyphs("begins within the one before", cmap4(p(5, 9, 65535), p(0, 0, 65535), p(0, -1, 0), p(0, 0, 0)), p(5, 5), p(6, 5));
     }
@@ -246,6 +249,8 @@ public final class EdgesMapsTest {
         // The OFFSET may lead back into the map itself: the last segment's own place, by 65534 it leads far out.
         byte[] far = cmap4(p(19, 65535), p(10, 65535), p(0, 0), p(65534, 0), 1, 2);
         glyphs("far beyond its length", far, p(10, 0), p(19, 0));
+        byte[] back = cmap4(p(19, 65535), p(10, 65535), p(0, 5), p(65534, 0), 1, 2);
+        glyphs("an OFFSET of 65534 leads on, not back", back, p(10, 0), p(11, 0));
         byte[] own = cmap4(p(19, 65535), p(10, 65535), p(1, 0), p(2, 2), 7);
         glyphs("the next OFFSET itself", own, p(10, 3), p(11, 8), p(12, 0), p(65535, 7));
     }
@@ -306,6 +311,9 @@ public final class EdgesMapsTest {
         }
         for (int less = 1; less <= cmap.length - 4; less++) {
             holds("cmap less " + less, Arrays.copyOf(cmap, cmap.length - less), false);
+        }
+        for (int form : p(0, 4, 8, 11, 13, 268, 65535)) {
+            holds("form " + form, changed(cmap, 12, form), false);
         }
     }
 

@@ -18,6 +18,7 @@ public final class EdgesPixelsTest {
         farAway();
         lineOfNone();
         lineKerns();
+        lineAtItsPlace();
         lineTooFar();
         lineFails();
         Check.done();
@@ -361,6 +362,24 @@ public final class EdgesPixelsTest {
                 house.type(lines[k].charAt(i));
             }
             Check.due("line(0, 0) of " + lines[k], house.line(0, 0), due[k]);
+        }
+    }
+
+    /** "DRAWN at x, y": each of a line at its own x, all at the line's y. */
+    private static void lineAtItsPlace() {
+        FontKit kit = new FontKit().add(128, 0, FontKit.simple(0, new byte[0], FontKit.square(0, 0, 64)));
+        HintHouse house = kit.sized(10);
+        for (int[] at : new int[][] {{0, 0}, {0, 128}, {64, 192}, {128, -64}, {-64, 64}}) {
+            house.canvas(6, 5);
+            house.type(65);
+            house.type(65);
+            Check.due("line(" + at[0] + ", " + at[1] + ")", house.line(at[0], at[1]), at[0] + 256);
+            for (int j = 0; j < 5; j++) {
+                for (int i = 0; i < 6; i++) {
+                    boolean there = 64 * j == at[1] && (64 * i == at[0] || 64 * i == at[0] + 128);
+                    Check.due("pixel(" + i + ", " + j + ") of a line at " + at[0] + ", " + at[1], house.pixel(i, j), there ? 1 : 0);
+                }
+            }
         }
     }
 

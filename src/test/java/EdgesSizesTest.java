@@ -11,6 +11,8 @@ public final class EdgesSizesTest {
         phantoms();
         phantomsAreRounded();
         phantomsOfParts();
+        memoryOfTheFirstGlyph();
+        phantomsOfManyPoints();
         phantomsBeginAnew();
         nothingIsTouched();
         partsInParts();
@@ -306,6 +308,50 @@ public final class EdgesSizesTest {
         Check.due("no such part: ADVANCE", house.told(4), 1024 - 128);
     }
 
+    /** CURRENT and ORIGINAL TWILIGHT places, the last CVT and the last STORAGE, as the first glyph sees them. */
+    private static void memoryOfTheFirstGlyph() {
+        byte[] left = FontKit.prog(p(0), 22, 1, p(3, 10), 72, 0, p(3, 20), 72, p(3, 7), 56, 1, p(3, 3), 56);
+        Object[][] reads = {{p(3), 70}, {p(3), 71}, {0, p(3), 70}, {0, p(3), 71}};
+        int[] due = {13, 10, 27, 20};
+        for (int k = 0; k < reads.length; k++) {
+            FontKit kit = Prep.kit(left);
+            kit.addSquare(p(0), 21, FontKit.prog(reads[k]), 133);
+            HintHouse house = kit.sized(10);
+            Check.due("make(1)", house.make(1), 4);
+            Check.due("TWILIGHT point 3, number " + k, house.told(7), due[k]);
+        }
+        for (int storage : p(1, 64)) {
+            for (int cvts : p(1, 256)) {
+                FontKit kit = new FontKit().addEmpty();
+                kit.storage = storage;
+                kit.cvt = new byte[2 * cvts];
+                kit.prep = FontKit.prog(p(storage - 1, 5), 66, p(cvts - 1, 6), 68);
+                kit.addSquare(p(storage - 1), 67, 133, p(cvts - 1), 69, 141);
+                HintHouse house = kit.sized(10);
+                Check.due("make(1) of " + storage + ", " + cvts, house.make(1), 4);
+                Check.due("the last STORAGE of " + storage + ", " + cvts, house.told(7), 5);
+                Check.due("the last CVT of " + storage + ", " + cvts, house.told(8), 6);
+            }
+        }
+    }
+
+    /** With bit 512 both places of both PHANTOMS, behind however many points they stand. */
+    private static void phantomsOfManyPoints() {
+        FontKit kit = new FontKit();
+        kit.add(300, 0, FontKit.simple(0, FontKit.prog(p(4, 5), 56, p(5, 7), 56, 0, p(4, 11), 56, p(5, 13), 56), FontKit.square(50, 60, 70)));
+        for (int axis = 0; axis < 2; axis++) {
+            byte[] whole = FontKit.composed(0, FontKit.part(2 + 256 + 512, 0, 0, 0));
+            kit.add(900, -128, FontKit.withProgram(whole, axis == 0 ? 1 : 0, p(4), 71, 133, p(5), 71, 141));
+        }
+        HintHouse house = kit.sized(10);
+        int[][] due = {{5, 327}, {11, 13}};
+        for (int axis = 0; axis < 2; axis++) {
+            Check.due("make(" + (1 + axis) + ")", house.make(1 + axis), 4);
+            Check.due("the first one, axis " + axis, house.told(7), due[axis][0]);
+            Check.due("the other one, axis " + axis, house.told(8), due[axis][1]);
+        }
+    }
+
     /** "(... y 0; ...)": whatever another glyph's program did with its PHANTOMS. */
     private static void phantomsBeginAnew() {
         FontKit kit = new FontKit().add(100, 0, FontKit.simple(0, FontKit.prog(0, p(1, 5), 56, p(2, 7), 56), p(0, 0, 1)));
@@ -524,14 +570,16 @@ public final class EdgesSizesTest {
         kit.add(0, 0, partsOf(0)).add(0, 0, dots(1, 100));
         byte[] none = FontKit.part(32, 1, 99, 99);
         byte[] last = FontKit.part(2, 5, 0, 0);
-        // 13 in a part, 12 by points, 5, 12 by parts: then 5, 5, 12 and (at last) 13.
+        // 13 in a part, 12 by points, 5, 12 by parts: then 5, 5, 12 and (at last) 13. And 5, 12 with 13 at last.
         kit.add(0, 0, FontKit.composed(0, FontKit.part(34, 4, 0, 0), none, last));
         kit.add(0, 0, FontKit.composed(0, FontKit.part(34, 5, 0, 0), FontKit.part(34, 5, 0, 0), none, last));
         kit.add(0, 0, FontKit.composed(0, FontKit.part(34, 5, 0, 0), none, last));
         kit.add(0, 0, partsOf(3, 1, 1, 1, 1, 0, 1));
+        kit.add(0, 0, FontKit.composed(0, FontKit.part(34, 0, 0, 0), FontKit.part(0, 1, 99, 99)));
+        kit.add(0, 0, FontKit.composed(0, FontKit.part(34, 0, 0, 0), last));
         kit.depth = 3;
         HintHouse house = kit.sized(10);
-        int[] due = {-113, -112, -105, -112};
+        int[] due = {-113, -112, -105, -112, -105, -112};
         for (int k = 0; k < due.length; k++) {
             Check.due("make(" + (6 + k) + ")", house.make(6 + k), due[k]);
             Check.due("told(3) of " + (6 + k), house.told(3), -1);
