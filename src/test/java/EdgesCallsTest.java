@@ -16,6 +16,7 @@ public final class EdgesCallsTest {
 
     public static void main(String[] args) {
         feeds();
+        feedsOfAllLengths();
         fonts();
         tables();
         glyphsOfCodes();
@@ -114,6 +115,26 @@ public final class EdgesCallsTest {
             }
             for (int n = 1; n <= 8; n++) {
                 Check.due(in("feed(" + n + ", -1)", state), house(state).feed(n, -1), 3 + n);
+            }
+        }
+    }
+
+    /** "The n lowest bytes of a long, the highest of these first": what stands above them counts for nothing. */
+    private static void feedsOfAllLengths() {
+        byte[] font = kit().font();
+        for (int n = 1; n <= 8; n++) {
+            for (long above : new long[] {0, -1, 0x5a5a5a5a5a5a5a5aL}) {
+                HintHouse house = new HintHouse();
+                for (int at = 0; at < font.length; at += n) {
+                    int count = Math.min(n, font.length - at);
+                    long bytes = above;
+                    for (int i = 0; i < count; i++) {
+                        bytes = bytes << 8 | font[at + i] & 255;
+                    }
+                    Check.due("feed(" + count + ", ..)", house.feed(count, bytes), at + count);
+                }
+                Check.due("load() of bytes fed by " + n + ", above them " + above, house.load(), 3);
+                Check.due("font(9) of bytes fed by " + n, house.font(9), font.length);
             }
         }
     }
