@@ -11,6 +11,7 @@ public final class EdgesPointsTest {
         oneTouched();
         equalOriginals();
         betweenTheTouched();
+        movedButNotTouched();
         aroundTheContour();
         contours();
         zones();
@@ -216,6 +217,22 @@ public final class EdgesPointsTest {
         xs("halves below 0", row(p(0, 1, 2, 3, 4), p(0), 46, p(4, -10), 56, 49), 0, -2, -3, -5, -6);
         // b goes beyond a: what lies between is turned.
         xs("turned", row(p(0, 25, 100), p(0, 100), 56, p(2, -100), 56, 49), 100, 75, 0);
+    }
+
+    /** "if its ORIGINAL is not above a's, CURRENT is ORIGINAL and ...": where 41 left the point counts for nothing. */
+    private static void movedButNotTouched() {
+        int[] middles = {99, 100, 101, 150, 199, 200, 201};
+        int[] due = {109, 110, 111, 170, 229, 230, 231};
+        for (int k = 0; k < middles.length; k++) {
+            for (int by : p(-500, -60, 60, 500)) {
+                byte[] away = FontKit.prog(p(1, by), 56, p(1), 41);
+                byte[] moved = FontKit.prog(p(0, 10), 56, p(2, 30), 56, 49);
+                String what = "at " + middles[k] + ", moved by " + by;
+                xs(what, row(p(100, middles[k], 200), away, moved), 110, due[k], 230);
+                byte[] turned = FontKit.prog(p(0, 30), 56, p(2, 10), 56, 49);
+                xs(what + ", the other way", row(p(200, middles[k], 100), away, turned), 230, due[k], 110);
+            }
+        }
     }
 
     /** "around": from the last touched one over the end to the first one. */

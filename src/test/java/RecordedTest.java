@@ -5,8 +5,8 @@ import java.nio.file.Files;
 import java.util.Arrays;
 
 /**
- * Plays the runs under src/test/runs: fonts and programs by chance, with the answers of a second
- * program for the same document, built another way by the same hand (it finds slips, not misreadings).
+ * Plays the runs under src/test/runs: fonts and programs by chance, with the answers of two other
+ * programs for the same document, built another way by the same hand (they find slips, not misreadings).
  * A row is a call, its arguments, "=" and the answer; "new" begins an object; "bytes" feeds bytes,
  * eight a call.
  */
