@@ -331,6 +331,11 @@ public final class EdgesFontTest {
             with("maxp", limit[0], limit[1] + 1, -107);
             with("maxp", limit[0], 65535, -107);
             with("maxp", limit[0], limit[0] == 30 ? 1 : 0, 3);
+            for (int bit = 512; bit <= 32768; bit *= 2) {
+                with("maxp", limit[0], limit[1] + bit, -107);
+                with("maxp", 4, 3 + bit / 2, -107);
+                with("maxp", 14, 2 + bit, -107);
+            }
         }
         for (int between : new int[] {6, 8, 10, 12, 26, 28}) {
             with("maxp", between, 65535, 3);

@@ -1,4 +1,5 @@
 import java.util.Arrays;
+import java.util.TreeMap;
 
 /** The edges that "4 CHARACTERS, KERNS" names. */
 public final class EdgesMapsTest {
@@ -102,11 +103,20 @@ public final class EdgesMapsTest {
 
     /** "how many RECORDS m": what stands behind the last one is none. */
     private static void recordsThatCount() {
-        byte[] map = Arrays.copyOfRange(FontKit.groups(65, 65, 3), 12, 40);
+        byte[] groups = Arrays.copyOfRange(FontKit.groups(65, 65, 3), 12, 40);
+        byte[] segments = segments(p(65535), p(0), p(1), p(0));
+        byte[] bytes = new FontKit.Out().u2(0, 262, 0).raw(new byte[256]).done();
         for (int m = 1; m <= 3; m++) {
-            FontKit.Out out = new FontKit.Out().u2(0, m).u2(3, 0).u4(28).u2(0, 4).u4(28).u2(3, 10).u4(28).raw(map);
-            holds("3, 10 as the third record of " + m, out.done(), m == 3);
+            holds("3, 10 as the third record of " + m, third(m, 3, 10, groups), m == 3);
+            holds("3, 1 as the third record of " + m, third(m, 3, 1, segments), m == 3);
+            holds("1, 0 as the third record of " + m, third(m, 1, 0, bytes), m == 3);
         }
+    }
+
+    /** A cmap that tells m RECORDS, and three that stand there. */
+    private static byte[] third(int m, int first, int second, byte[] map) {
+        FontKit.Out out = new FontKit.Out().u2(0, m).u2(3, 0).u4(28).u2(0, 4).u4(28);
+        return out.u2(first, second).u4(28).raw(map).done();
     }
 
     /** "it begins at the record's U4 from the table's begin". */
@@ -120,6 +130,21 @@ public final class EdgesMapsTest {
         for (long begin : wrong) {
             holds("a map at " + begin, new FontKit.Out().u2(0, 1).u2(3, 10).u4(begin).raw(map).done(), false);
         }
+        byte[] bytes = new FontKit.Out().u2(0, 262, 0).raw(new byte[256]).done();
+        aheadOfCmap(3, 10, map);
+        aheadOfCmap(3, 1, segments(p(65535), p(0), p(1), p(0)));
+        aheadOfCmap(1, 0, bytes);
+    }
+
+    /** A map in the table ahead of cmap: 2^32 less its length is beyond the font, not below cmap's begin. */
+    private static void aheadOfCmap(int first, int second, byte[] map) {
+        byte[] ahead = new FontKit.Out().raw(new byte[-map.length & 3]).raw(map).done();
+        byte[] cmap = new FontKit.Out().u2(0, 1, first, second).u4((1L << 32) - map.length).raw(map).done();
+        TreeMap<String, byte[]> tables = kit(cmap).tables();
+        tables.put("abcd", ahead);
+        Check.due("a map ahead of cmap, " + first + ", " + second, FontKit.loadTables(tables), -112);
+        FontKit.setU4(cmap, 8, 12);
+        Check.due("the same map in cmap, " + first + ", " + second, FontKit.loadTables(tables), 10);
     }
 
     /** "U2 0, U2 262, U2, 256 U1: the glyph of the code". */
@@ -392,6 +417,10 @@ public final class EdgesMapsTest {
         kern("LEFT goes up, RIGHT down", FontKit.kerns(1, 3, 0, 2, 2, 0), true);
         kern("LEFT goes down, RIGHT up", FontKit.kerns(2, 1, 0, 1, 2, 0), false);
         kern("as U2s", FontKit.kerns(32767, 65535, 0, 32768, 0, 0, 65535, 65535, 0), true);
+        FontKit unknown = kit(FontKit.groups(65, 70, 1));
+        unknown.kern = FontKit.kerns(1, 258, 7, 257, 2, 5, 32769, 2, 6);
+        HintHouse house = unknown.house();
+        Check.due("kern(1, 2) with pairs of glyphs that there are not", house.kern(1, 2), 0);
         kern("from 0, 0", FontKit.kerns(0, 0, 0, 0, 1, 0), true);
         kern("the last two", FontKit.kerns(0, 0, 0, 0, 1, 0, 0, 1, 0), false);
     }
